@@ -22,7 +22,8 @@ public final class BusCrossbar {
     private static final int PAGES = 16;
     private static final int PAGE_BYTES = 4096;
     private static final int ADDRESSES = 65536;
-    private static final int WORDS = 8192;
+    private static final int WORDS = ADDRESSES / 8;
+    private static final int SPOILT_WORDS = ADDRESSES / 64;
     private static final int IDS = 64;
     private static final int MASTER_IDS = 16;
     private static final int MOST_BEATS = 16;
@@ -211,21 +212,14 @@ public final class BusCrossbar {
 
     public int tick(int n) throws IllegalArgumentException {
         needNumber(n, 1, 100);
-        int transfers = 0;
-        for (int i = 0; i < n; i++) {
-            transfers += runTick();
-        }
-        return transfers;
+        return runTicks(n, false);
     }
 
     public int drain(int n) throws IllegalArgumentException {
         needNumber(n, 1, 1000);
-        int ticks = 0;
-        while (ticks < n && openRequests() > 0) {
-            runTick();
-            ticks++;
-        }
-        return openRequests() > 0 ? NONE : ticks;
+        int start = time;
+        runTicks(n, true);
+        return openRequests() > 0 ? NONE : time - start;
     }
 
     public int ticket(int ticket, int what) throws IndexOutOfBoundsException, IllegalArgumentException {
@@ -404,31 +398,26 @@ public final class BusCrossbar {
 
     // ---- a tick
 
-    private int runTick() {
-        tellWires();
-        for (int m = 0; m < masters.length; m++) {
-            masterPorts[m].monitor.look(masterPorts[m]);
+    private int runTicks(int most, boolean tillDone) {
+        int transfers = 0;
+        for (int i = 0; i < most && !(tillDone && openRequests() == 0); i++) {
+            for (int m = 0; m < masters.length; m++) {
+                masterPorts[m].begin();
+                masters[m].tell(masterPorts[m], time);
+                crossbar.tellMaster(masterPorts[m], m);
+                masterPorts[m].monitor.look(masterPorts[m]);
+            }
+            for (int s = 0; s < slaves.length; s++) {
+                slavePorts[s].begin();
+                slaves[s].tell(slavePorts[s], time);
+                crossbar.tellSlave(slavePorts[s], s);
+                slavePorts[s].monitor.look(slavePorts[s]);
+            }
+            transfers += goOver();
+            crossbar.moveAll();
+            time++;
         }
-        for (int s = 0; s < slaves.length; s++) {
-            slavePorts[s].monitor.look(slavePorts[s]);
-        }
-        int transfers = goOver();
-        crossbar.moveAll();
-        time++;
         return transfers;
-    }
-
-    private void tellWires() {
-        for (int m = 0; m < masters.length; m++) {
-            masterPorts[m].begin();
-            masters[m].tell(masterPorts[m], time);
-            crossbar.tellMaster(masterPorts[m], m);
-        }
-        for (int s = 0; s < slaves.length; s++) {
-            slavePorts[s].begin();
-            slaves[s].tell(slavePorts[s], time);
-            crossbar.tellSlave(slavePorts[s], s);
-        }
     }
 
     private int goOver() {
@@ -754,18 +743,22 @@ public final class BusCrossbar {
         }
     }
 
-    /** The bytes, eight in a word as they stand on the lanes, and which of them are spoilt. */
+    /** The bytes, eight in a word as they stand on the lanes, and a bit for each that is spoilt. */
     private static final class Memory {
         private final long[] words = new long[WORDS];
-        private final byte[] spoilt = new byte[WORDS];
+        private final long[] spoilt = new long[SPOILT_WORDS];
 
         void reset() {
             Arrays.fill(words, 0L);
-            Arrays.fill(spoilt, (byte) 0);
+            Arrays.fill(spoilt, 0L);
         }
 
         private static int wordOf(int address) {
             return address >> 3 & WORDS - 1;
+        }
+
+        private static int spoiltWordOf(int address) {
+            return address >> 6 & SPOILT_WORDS - 1;
         }
 
         int byteAt(int address) {
@@ -783,27 +776,26 @@ public final class BusCrossbar {
         }
 
         boolean isSpoilt(int address, int lanes) {
-            return (spoilt[wordOf(address)] & lanes) != 0;
+            return (spoilt[spoiltWordOf(address)] >> (address & 56) & lanes) != 0;
         }
 
         /** Marks n bytes, one at least and all of them there: for how many that is new. */
         int mark(int address, int n, boolean on) {
             int end = address + n - 1;
-            int first = wordOf(address);
-            int last = wordOf(end);
+            int first = spoiltWordOf(address);
+            int last = spoiltWordOf(end);
             int changed = 0;
             for (int word = first; word <= last; word++) {
-                int lanes = ALL_LANES;
+                long bits = -1L;
                 if (word == first) {
-                    lanes &= ALL_LANES << (address & 7);
+                    bits &= -1L << (address & 63);
                 }
                 if (word == last) {
-                    lanes &= ALL_LANES >> 7 - (end & 7);
+                    bits &= -1L >>> 63 - (end & 63);
                 }
-                int before = spoilt[word] & ALL_LANES;
-                int behind = on ? before | lanes : before & ~lanes;
-                changed += Integer.bitCount(before ^ behind);
-                spoilt[word] = (byte) behind;
+                long before = spoilt[word];
+                spoilt[word] = on ? before | bits : before & ~bits;
+                changed += Long.bitCount(before ^ spoilt[word]);
             }
             return changed;
         }
@@ -957,13 +949,28 @@ public final class BusCrossbar {
             for (int c = 0; c < CHANNELS && rule == NO_RULE; c++) {
                 note(brokenOn(port, c), c);
             }
-            takeTransfers(port);
+            if (rule == NO_RULE) {
+                takeAnswers(port);
+            }
+            if (rule == NO_RULE && port.moves(AR)) {
+                note(reads.add(port.contents[AR]) == null ? RULE_FULL : NO_RULE, AR);
+            }
+            if (rule == NO_RULE && port.moves(AW)) {
+                note(takeWriteAddress(port.contents[AW]), AW);
+            }
+            if (rule == NO_RULE && port.moves(W)) {
+                note(takeWriteBeat(port.rests[W]), W);
+            }
+            remember(port);
+            ticks++;
+        }
+
+        private void remember(Port port) {
             for (int c = 0; c < CHANNELS; c++) {
                 held[c] = port.valid[c] && !port.ready[c];
                 heldContents[c] = port.contents[c];
                 heldRests[c] = port.rests[c];
             }
-            ticks++;
         }
 
         private void note(int broken, int channel) {
@@ -1029,21 +1036,12 @@ public final class BusCrossbar {
         }
 
         /** Answers go first, so that what they end makes room for what comes in the same tick. */
-        private void takeTransfers(Port port) {
-            if (rule == NO_RULE && port.moves(B)) {
+        private void takeAnswers(Port port) {
+            if (port.moves(B)) {
                 writes.remove(writes.firstAnswerable(restId(port.rests[B])));
             }
-            if (rule == NO_RULE && port.moves(R)) {
+            if (port.moves(R)) {
                 takeReadBeat(port.rests[R]);
-            }
-            if (rule == NO_RULE && port.moves(AR)) {
-                note(reads.add(port.contents[AR]) == null ? RULE_FULL : NO_RULE, AR);
-            }
-            if (rule == NO_RULE && port.moves(AW)) {
-                note(takeWriteAddress(port.contents[AW]), AW);
-            }
-            if (rule == NO_RULE && port.moves(W)) {
-                note(takeWriteBeat(port.rests[W]), W);
             }
         }
 
@@ -1318,42 +1316,41 @@ public final class BusCrossbar {
             port.ready[W] = isOn(patterns[W], time) && writes.firstUnended() != NONE;
             port.ready[AR] = isOn(patterns[AR], time) && reads.hasRoom();
             if (!port.held[B]) {
-                tellAnswer(port, time);
+                chosenWrite = isOn(patterns[B], time) ? choose(writes, false, time) : NONE;
+                sendAnswer(port, writes.at(chosenWrite));
             }
             if (!port.held[R]) {
-                tellReadBeat(port, time);
+                chosenRead = isOn(patterns[R], time) ? choose(reads, true, time) : NONE;
+                sendReadBeat(port, reads.at(chosenRead));
             }
         }
 
-        private void tellAnswer(Port port, int time) {
-            chosenWrite = isOn(patterns[B], time) ? choose(writes, time) : NONE;
-            Burst chosen = writes.at(chosenWrite);
+        private static void sendAnswer(Port port, Burst chosen) {
             if (chosen != null) {
                 port.send(B, 0, answerRest(Burst.idOf(chosen.content), chosen.response, false));
             }
         }
 
-        private void tellReadBeat(Port port, int time) {
-            chosenRead = isOn(patterns[R], time) ? choose(reads, time) : NONE;
-            Burst chosen = reads.at(chosenRead);
+        private static void sendReadBeat(Port port, Burst chosen) {
             if (chosen != null && chosen.beats < MOST_BEATS) {
                 port.send(R, chosen.data[chosen.beats], chosen.rests[chosen.beats]);
             }
         }
 
-        private int choose(Line line, int time) {
+        private int choose(Line line, boolean ofReads, int time) {
             if (way == 0) {
                 return isRipe(line.at(0), time) ? 0 : NONE;
             }
-            return way == 2 && line == reads ? chooseNext(time) : chooseLast(line, time);
+            return way == 2 && ofReads ? chooseNext(time) : chooseLast(line, ofReads, time);
         }
 
-        private int chooseLast(Line line, int time) {
+        /** The last one; but a read that has begun goes on. */
+        private int chooseLast(Line line, boolean ofReads, int time) {
             int chosen = NONE;
             for (int i = 0; i < line.size; i++) {
                 if (mayAnswer(line, i, time)) {
                     chosen = i;
-                    if (line == reads && line.bursts[i].beats > 0) {
+                    if (ofReads && line.bursts[i].beats > 0) {
                         return i;
                     }
                 }
@@ -1361,6 +1358,7 @@ public final class BusCrossbar {
             return chosen;
         }
 
+        /** The first one that came behind the read of the latest beat, else the first. */
         private int chooseNext(int time) {
             int chosen = NONE;
             for (int i = 0; i < reads.size; i++) {
@@ -1390,7 +1388,7 @@ public final class BusCrossbar {
                     writes.add(port.contents[AW]);
                     break;
                 case W:
-                    takeBeat(writes.at(writes.firstUnended()), port, time);
+                    doWrite(takeBeat(writes.at(writes.firstUnended()), port, time));
                     break;
                 case B:
                     writes.remove(chosenWrite);
@@ -1415,19 +1413,24 @@ public final class BusCrossbar {
             }
         }
 
-        private void takeBeat(Burst write, Port port, int time) {
+        /** The write if it is complete with this beat, else null. */
+        private static Burst takeBeat(Burst write, Port port, int time) {
             if (write == null) {
-                return;
+                return null;
             }
             write.takeBeat(port.contents[W], port.rests[W]);
-            if (write.beats >= Burst.lengthOf(write.content)) {
-                write.ended = true;
-                write.since = time;
-                doWrite(write);
+            if (write.beats < Burst.lengthOf(write.content)) {
+                return null;
             }
+            write.ended = true;
+            write.since = time;
+            return write;
         }
 
         private void doWrite(Burst write) {
+            if (write == null) {
+                return;
+            }
             boolean exclusive = Burst.isExclusive(write.content);
             boolean allowed = !exclusive || hasRight(write.content);
             if (exclusive) {
@@ -1450,13 +1453,9 @@ public final class BusCrossbar {
             return Burst.lengthOf(content) * Burst.bytesOf(content);
         }
 
-        private static int strobedLanes(Burst write, int beat) {
-            return write.rests[beat] & Burst.beatLanes(write.content, beat);
-        }
-
         private boolean writesSpoilt(Burst write) {
             for (int k = 0; k < write.beats; k++) {
-                if (memory.isSpoilt(Burst.beatAddress(write.content, k), strobedLanes(write, k))) {
+                if (memory.isSpoilt(Burst.beatAddress(write.content, k), write.rests[k] & ALL_LANES)) {
                     return true;
                 }
             }
@@ -1466,7 +1465,7 @@ public final class BusCrossbar {
         private void storeBeats(Burst write) {
             for (int k = 0; k < write.beats; k++) {
                 int address = Burst.beatAddress(write.content, k);
-                int lanes = strobedLanes(write, k);
+                int lanes = write.rests[k] & ALL_LANES;
                 memory.store(address, write.data[k], lanes);
                 takeRights(address & ~7, lanes);
             }
