@@ -87,7 +87,8 @@ public final class BusCrossbar {
     public BusCrossbar(int masters, int slaves, int limit) {
         int masterCount = nearest(masters, MOST_PORTS);
         int slaveCount = nearest(slaves, MOST_PORTS);
-        memory = new Memory();
+        Memory shared = new Memory();
+        memory = shared;
         crossbar = new Switch(masterCount, slaveCount, nearest(limit, MOST_LIMIT));
         this.masters = new Master[masterCount];
         masterPorts = new Port[masterCount];
@@ -98,7 +99,7 @@ public final class BusCrossbar {
         this.slaves = new Slave[slaveCount];
         slavePorts = new Port[slaveCount];
         for (int s = 0; s < slaveCount; s++) {
-            this.slaves[s] = new Slave(memory);
+            this.slaves[s] = new Slave(shared);
             slavePorts[s] = new Port();
         }
         watchers = new Port[WATCHERS];
@@ -166,7 +167,9 @@ public final class BusCrossbar {
 
     public int spoil(int address, int n, boolean on) throws IndexOutOfBoundsException, IllegalArgumentException {
         needIndex(address, ADDRESSES);
-        needNumber(n, 1, Integer.MAX_VALUE);
+        if (n < 1) {
+            throw new IllegalArgumentException("there are no such many bytes");
+        }
         return memory.mark(address, Math.min(n, ADDRESSES - address), on);
     }
 
@@ -1213,18 +1216,16 @@ public final class BusCrossbar {
         void pass(Port port, int channel, int time) {
             switch (channel) {
                 case AW:
-                    stamp(at(writes, writesSent, writeCount), time);
-                    writesSent++;
+                    writesSent += stamp(at(writes, writesSent, writeCount), time);
                     break;
                 case W:
                     feed(at(writes, writesFed, writeCount));
                     break;
                 case B:
-                    answer(unanswered(writes, writesSent, restId(port.rests[B])), port.rests[B], time);
+                    takeAnswer(unanswered(writes, writesSent, restId(port.rests[B])), port.rests[B], time);
                     break;
                 case AR:
-                    stamp(at(reads, readsSent, readCount), time);
-                    readsSent++;
+                    readsSent += stamp(at(reads, readsSent, readCount), time);
                     break;
                 default:
                     takeBeat(unanswered(reads, readsSent, restId(port.rests[R])), port, time);
@@ -1232,10 +1233,13 @@ public final class BusCrossbar {
             }
         }
 
-        private static void stamp(Request sent, int time) {
-            if (sent != null) {
-                sent.sent = time;
+        /** Notes when an address was sent: how many were. */
+        private static int stamp(Request next, int time) {
+            if (next == null) {
+                return 0;
             }
+            next.sent = time;
+            return 1;
         }
 
         private void feed(Request fed) {
@@ -1258,13 +1262,11 @@ public final class BusCrossbar {
             return null;
         }
 
-        private void answer(Request answered, int rest, int time) {
-            if (answered == null) {
-                return;
+        private void takeAnswer(Request write, int rest, int time) {
+            if (write != null) {
+                write.response = restResponse(rest);
+                finish(write, time);
             }
-            answered.response = Math.max(answered.response, restResponse(rest));
-            answered.done = time;
-            open--;
         }
 
         private void takeBeat(Request read, Port port, int time) {
@@ -1274,8 +1276,13 @@ public final class BusCrossbar {
             read.burst.takeBeat(port.contents[R], port.rests[R]);
             read.response = Math.max(read.response, restResponse(port.rests[R]));
             if (read.burst.beats >= Burst.lengthOf(read.burst.content)) {
-                answer(read, port.rests[R], time);
+                finish(read, time);
             }
+        }
+
+        private void finish(Request answered, int time) {
+            answered.done = time;
+            open--;
         }
     }
 
@@ -1473,14 +1480,20 @@ public final class BusCrossbar {
 
         private void takeRights(int base, int lanes) {
             for (int id = 0; id < IDS; id++) {
-                for (int lane = 0; lane < 8; lane++) {
-                    int from = rightFrom[id];
-                    boolean inside = base + lane >= from && base + lane < from + rightBytes[id];
-                    if (from != NONE && inside && (lanes >> lane & 1) == 1) {
-                        rightFrom[id] = NONE;
-                    }
+                if (rightFrom[id] != NONE && meetsRight(id, base, lanes)) {
+                    rightFrom[id] = NONE;
                 }
             }
+        }
+
+        private boolean meetsRight(int id, int base, int lanes) {
+            for (int lane = 0; lane < 8; lane++) {
+                int behind = base + lane - rightFrom[id];
+                if ((lanes >> lane & 1) == 1 && behind >= 0 && behind < rightBytes[id]) {
+                    return true;
+                }
+            }
+            return false;
         }
 
         private void doRead(Burst read, int time) {
