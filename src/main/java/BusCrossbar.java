@@ -385,7 +385,7 @@ public final class BusCrossbar {
         memory.reset();
         crossbar.reset();
         for (int m = 0; m < masters.length; m++) {
-            masters[m].reset();
+            masters[m].resetSettings();
             masterPorts[m].reset();
         }
         for (int s = 0; s < slaves.length; s++) {
@@ -1150,10 +1150,9 @@ public final class BusCrossbar {
             Arrays.fill(patterns, 65535);
         }
 
-        void reset() {
+        void resetSettings() {
             Arrays.fill(patterns, 65535);
             early = false;
-            dropRequests();
         }
 
         void dropRequests() {

@@ -6,28 +6,39 @@ final class ClearTest {
     private static final Check CHECK = new Check();
 
     public static void main(String[] args) {
-        BusCrossbar used = new BusCrossbar(3, 2, 3);
-        use(used);
-        used.clear();
-        BusCrossbar fresh = new BusCrossbar(3, 2, 3);
-        compare("at once", used, fresh);
-        for (int round = 0; round < 2; round++) {
-            List<Long> again = run(used);
-            List<Long> first = run(fresh);
-            for (int i = 0; i < first.size(); i++) {
-                CHECK.due("answer " + i + " of the same run", again.get(i), first.get(i));
+        for (int ticks = 1; ticks <= 60; ticks++) {
+            for (int way = 0; way < 3; way++) {
+                clearedBehind(ticks, way);
             }
-            compare("behind the same run", used, fresh);
         }
         CHECK.end();
     }
 
+    private static void clearedBehind(int ticks, int way) {
+        BusCrossbar used = new BusCrossbar(3, 2, 3);
+        BusCrossbar fresh = new BusCrossbar(3, 2, 3);
+        use(used, ticks);
+        used.clear();
+        if (ticks == 17) {
+            compare("at once", used, fresh);
+        }
+        List<Long> again = run(used, way);
+        List<Long> first = run(fresh, way);
+        for (int i = 0; i < first.size(); i++) {
+            CHECK.due("answer " + i + " of the same run behind " + ticks, again.get(i), first.get(i));
+        }
+        if (ticks == 17) {
+            compare("behind the same run", used, fresh);
+        }
+    }
+
     /** Changes all that can be changed, and stops in the middle of it. */
-    private static void use(BusCrossbar bus) {
+    private static void use(BusCrossbar bus, int ticks) {
         bus.map(0, -1);
         bus.map(1, 0);
         for (int m = 0; m < 3; m++) {
             bus.request(m, 512 + Check.how(2, 3, Check.GROWING), 8192, m, 0);
+            bus.request(m, 512 + Check.how(2, 3, Check.GROWING), 12288 + 64, m, 0);
             bus.request(m, 256 + Check.how(2, 3, Check.GROWING), 12288, m, 7);
         }
         bus.drain(200);
@@ -47,7 +58,7 @@ final class ClearTest {
                 bus.request(m, (i & 1) * 256 + Check.how(1 + i, 2, Check.GROWING), 4096 * (i + m), i, i);
             }
         }
-        bus.tick(17);
+        bus.tick(ticks);
         bus.see(0, Check.R, Check.BOTH, 0, 0);
         bus.judge(0);
         bus.see(0, Check.AW, Check.VALID, 0, 0);
@@ -55,8 +66,14 @@ final class ClearTest {
         bus.judge(1);
     }
 
-    private static List<Long> run(BusCrossbar bus) {
+    private static List<Long> run(BusCrossbar bus, int way) {
         List<Long> answers = new ArrayList<>();
+        answers.add((long) bus.right(0, 0) + 1000 * bus.right(1, 0));
+        answers.add((long) bus.way(0, 0, way));
+        answers.add((long) bus.way(1, 0, way));
+        answers.add((long) bus.map(3, -1));
+        bus.slave(0, Check.R, 0xF0F0);
+        bus.request(0, Check.how(6, 3, Check.GROWING), 3 * 4096, 9, 1);
         for (int i = 0; i < 6; i++) {
             for (int m = 0; m < 3; m++) {
                 int how = (i % 2) * 256 + Check.how(1 + i % 3, 3, Check.GROWING) + (i > 3 ? 512 : 0);
@@ -65,6 +82,7 @@ final class ClearTest {
                 answers.add(ticket);
             }
         }
+        bus.slave(1, Check.R, 0xCCCC);
         for (int i = 0; i < 40; i++) {
             answers.add((long) bus.tick(1));
             for (int m = 0; m < 3; m++) {
@@ -76,6 +94,7 @@ final class ClearTest {
         }
         answers.add((long) bus.drain(1000));
         answers.add((long) bus.forget());
+        answers.add((long) bus.map(3, 1));
         answers.add((long) bus.judge(0));
         answers.add((long) bus.judge(1));
         return answers;

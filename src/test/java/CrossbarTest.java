@@ -8,6 +8,7 @@ final class CrossbarTest {
             leastMaster(channel);
             roundAndRound(channel);
             earliest(channel);
+            earliestOfRows(channel);
             mostUrgent(channel);
             chosenByWhateverPolicy(channel);
             oneOfEachTarget(channel);
@@ -77,6 +78,19 @@ final class CrossbarTest {
         bus.tick(1);
         ask(bus, channel, 0);
         CHECK.due("policy 2, the earliest", order(bus, 0, channel, 30), "120");
+    }
+
+    private static void earliestOfRows(int channel) {
+        BusCrossbar bus = busOf(2);
+        bus.slave(0, channel, 0);
+        ask(bus, channel, 2, 2);
+        bus.tick(5);
+        for (int m : new int[] {0, 1, 0, 1}) {
+            ask(bus, channel, m);
+            bus.tick(1);
+        }
+        bus.slave(0, channel, 65535);
+        CHECK.due("policy 2, two in a row", order(bus, 0, channel, 30), "220101");
     }
 
     private static void mostUrgent(int channel) {

@@ -8,6 +8,7 @@ final class RequestTest {
         wrongRequests();
         ruleOfBursts();
         roomForTickets();
+        forgottenManyTimes();
         roomForAddresses();
         tickAndDrain();
         ticketsAndForget();
@@ -127,6 +128,23 @@ final class RequestTest {
         CHECK.due("its stage", bus.ticket(0, 0), 0);
         CHECK.due("its beats", bus.ticket(0, 5), 0);
         CHECK.noIndex("ticket 1", () -> bus.ticket(1, 0));
+    }
+
+    private static void forgottenManyTimes() {
+        BusCrossbar bus = new BusCrossbar(2, 1, 8);
+        bus.spoil(0, 64, true);
+        for (int round = 0; round < 3; round++) {
+            int sort = round == 1 ? 0 : Check.WRITE;
+            for (int m = 0; m < 2; m++) {
+                for (int i = 0; i < 64; i++) {
+                    bus.request(m, sort, i, i % 16, i);
+                    CHECK.due("a new ticket has no response", bus.ticket(i, 1), 0);
+                    bus.drain(100);
+                    CHECK.due("a spoilt byte", bus.ticket(i, 1), 2);
+                }
+                CHECK.due("forgotten", bus.forget(), 64);
+            }
+        }
     }
 
     private static void roomForAddresses() {

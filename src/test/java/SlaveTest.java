@@ -21,6 +21,7 @@ final class SlaveTest {
         rightsOfOtherBytes();
         rightsAndSpoiltBytes();
         rightsTakenByWrites();
+        rightsOfEachId();
         rightsAndPages();
         wrongRights();
         CHECK.end();
@@ -320,6 +321,22 @@ final class SlaveTest {
             run(sparse, 1, Check.WRITE + Check.SPARSE + EIGHT, 0, 1);
             boolean strobe = (Check.seedAfter(99, 1) >>> 56 + lane & 1) == 1;
             CHECK.due("sparse write of lane " + lane, sparse.right(0, 1), strobe ? -1 : lane);
+        }
+    }
+
+    private static void rightsOfEachId() {
+        BusCrossbar bus = new BusCrossbar(4, 1, 8);
+        for (int id = 0; id < 64; id++) {
+            run(bus, id / 16, EIGHT + Check.EXCLUSIVE, 8 * id, id % 16);
+            CHECK.due("right of " + id, bus.right(0, id), 8 * id);
+            if (id % 32 == 31) {
+                bus.forget();
+            }
+        }
+        run(bus, 0, Check.WRITE + Check.how(16, 3, Check.GROWING), 0, 0);
+        run(bus, 3, Check.WRITE + Check.how(1, 0, Check.GROWING), 8 * 63, 0);
+        for (int id = 0; id < 64; id++) {
+            CHECK.due("right of " + id + " then", bus.right(0, id), id < 16 || id == 63 ? -1 : 8 * id);
         }
     }
 
