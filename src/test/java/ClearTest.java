@@ -11,7 +11,37 @@ final class ClearTest {
                 clearedBehind(ticks, way);
             }
         }
+        latestBeat();
+        defaultRead();
         CHECK.end();
+    }
+
+    private static void latestBeat() {
+        BusCrossbar bus = new BusCrossbar(1, 1, 8);
+        bus.request(0, 0, 0, 0, 0);
+        bus.drain(10);
+        bus.clear();
+        bus.way(0, 0, 2);
+        bus.slave(0, Check.R, 0);
+        for (int id = 1; id <= 3; id++) {
+            bus.request(0, 0, 0, id, 0);
+        }
+        bus.tick(10);
+        bus.slave(0, Check.R, 65535);
+        bus.tick(1);
+        CHECK.due("no beat went before", bus.wire(Check.SLAVE, 0, Check.R, 2) % 64, 1);
+    }
+
+    private static void defaultRead() {
+        BusCrossbar bus = new BusCrossbar(1, 1, 8);
+        bus.map(0, -1);
+        bus.request(0, Check.how(16, 0, Check.GROWING), 0, 0, 0);
+        bus.tick(3);
+        bus.clear();
+        CHECK.due("page 0 is the slave's", bus.map(0, -1), 0);
+        bus.request(0, Check.how(4, 0, Check.GROWING), 0, 0, 0);
+        CHECK.due("four beats of the default target", bus.drain(50), 5);
+        CHECK.sound("default target", bus);
     }
 
     private static void clearedBehind(int ticks, int way) {
