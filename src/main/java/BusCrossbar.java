@@ -32,6 +32,7 @@ public final class BusCrossbar {
     private static final int MONITOR_ROOM = 16;
     private static final int SLAVE_ROOM = 4;
     private static final int WATCHERS = 2;
+    private static final int EVERY_TICK = 65535;
 
     private static final int FIXED = 0;
     private static final int GROWING = 1;
@@ -168,7 +169,7 @@ public final class BusCrossbar {
     public int spoil(int address, int n, boolean on) throws IndexOutOfBoundsException, IllegalArgumentException {
         needIndex(address, ADDRESSES);
         if (n < 1) {
-            throw new IllegalArgumentException("there are no such many bytes");
+            throw new IllegalArgumentException("n is below 1");
         }
         return memory.mark(address, Math.min(n, ADDRESSES - address), on);
     }
@@ -401,6 +402,7 @@ public final class BusCrossbar {
 
     // ---- a tick
 
+    /** No port's wires depend on another's in the same tick, so its monitor looks as soon as they are told. */
     private int runTicks(int most, boolean tillDone) {
         int transfers = 0;
         for (int i = 0; i < most && !(tillDone && openRequests() == 0); i++) {
@@ -476,7 +478,7 @@ public final class BusCrossbar {
 
     private static int exchange(int[] patterns, int channel, int pattern) {
         int before = patterns[channel];
-        patterns[channel] = pattern & 65535;
+        patterns[channel] = pattern & EVERY_TICK;
         return before;
     }
 
@@ -1147,11 +1149,11 @@ public final class BusCrossbar {
         private int open;
 
         Master() {
-            Arrays.fill(patterns, 65535);
+            Arrays.fill(patterns, EVERY_TICK);
         }
 
         void resetSettings() {
-            Arrays.fill(patterns, 65535);
+            Arrays.fill(patterns, EVERY_TICK);
             early = false;
         }
 
@@ -1301,12 +1303,12 @@ public final class BusCrossbar {
 
         Slave(Memory shared) {
             memory = shared;
-            Arrays.fill(patterns, 65535);
+            Arrays.fill(patterns, EVERY_TICK);
             Arrays.fill(rightFrom, NONE);
         }
 
         void reset() {
-            Arrays.fill(patterns, 65535);
+            Arrays.fill(patterns, EVERY_TICK);
             Arrays.fill(rightFrom, NONE);
             writes.size = 0;
             reads.size = 0;
