@@ -1,3 +1,5 @@
+import java.util.List;
+
 /** Counts the answers of a test that are not as due, and ends the test. */
 final class Check {
     static final int FIXED = 0;
@@ -37,6 +39,17 @@ final class Check {
         if (!got.equals(want)) {
             wrong++;
             System.out.println(call + " answered " + got + ", due is " + want);
+        }
+    }
+
+    void due(String call, boolean got, boolean want) {
+        due(call, got ? 1 : 0, want ? 1 : 0);
+    }
+
+    void same(String name, List<Long> got, List<Long> want) {
+        due(name + ": how many answers", got.size(), want.size());
+        for (int i = 0; i < want.size() && i < got.size(); i++) {
+            due(name + ": answer " + i, got.get(i), want.get(i));
         }
     }
 
@@ -105,9 +118,10 @@ final class Check {
     }
 
     /** No monitor at a port has found a fault. */
-    void sound(String run, BusCrossbar bus) {
+    void sound(String run, Bus bus) {
         for (int side = 0; side < 2; side++) {
-            for (int k = 0; k < bus.told(3 + side); k++) {
+            int count = bus.told(3 + side);
+            for (int k = 0; k < count; k++) {
                 due(run + ": rule at port " + side + " " + k, bus.port(side, k, 5), 0);
             }
         }

@@ -30,7 +30,7 @@ final class CrossbarTest {
     }
 
     /** Goes n ticks: the masters whose addresses come to a slave's port. */
-    private static String order(BusCrossbar bus, int slave, int channel, int n) {
+    private static String order(Bus bus, int slave, int channel, int n) {
         StringBuilder order = new StringBuilder();
         for (int i = 0; i < n; i++) {
             bus.tick(1);
@@ -41,27 +41,27 @@ final class CrossbarTest {
         return order.toString();
     }
 
-    private static void ask(BusCrossbar bus, int channel, int... masters) {
+    private static void ask(Bus bus, int channel, int... masters) {
         for (int m : masters) {
             bus.request(m, sort(channel) + ONE, 0, 0, 0);
         }
     }
 
-    private static BusCrossbar busOf(int policy) {
-        BusCrossbar bus = new BusCrossbar(3, 1, 8);
+    private static Bus busOf(int policy) {
+        Bus bus = new Bus(3, 1, 8);
         bus.policy(policy, false);
         return bus;
     }
 
     private static void leastMaster(int channel) {
-        BusCrossbar bus = busOf(0);
+        Bus bus = busOf(0);
         ask(bus, channel, 2, 2, 1, 1, 0, 0, 0);
         CHECK.due("policy 0", order(bus, 0, channel, 30), "0001122");
         CHECK.sound("policy 0", bus);
     }
 
     private static void roundAndRound(int channel) {
-        BusCrossbar bus = busOf(1);
+        Bus bus = busOf(1);
         ask(bus, channel, 2, 2, 1, 1, 0, 0, 0);
         CHECK.due("policy 1", order(bus, 0, channel, 30), "0120120");
         ask(bus, channel, 0, 1, 2);
@@ -69,7 +69,7 @@ final class CrossbarTest {
     }
 
     private static void earliest(int channel) {
-        BusCrossbar bus = busOf(2);
+        Bus bus = busOf(2);
         ask(bus, channel, 1);
         bus.tick(1);
         ask(bus, channel, 0, 1, 2);
@@ -81,7 +81,7 @@ final class CrossbarTest {
     }
 
     private static void earliestOfRows(int channel) {
-        BusCrossbar bus = busOf(2);
+        Bus bus = busOf(2);
         bus.slave(0, channel, 0);
         ask(bus, channel, 2, 2);
         bus.tick(5);
@@ -94,7 +94,7 @@ final class CrossbarTest {
     }
 
     private static void mostUrgent(int channel) {
-        BusCrossbar bus = busOf(3);
+        Bus bus = busOf(3);
         ask(bus, channel, 1);
         bus.tick(1);
         int[] urgencies = {14, 15, 15};
@@ -105,7 +105,7 @@ final class CrossbarTest {
     }
 
     private static void chosenByWhateverPolicy(int channel) {
-        BusCrossbar bus = busOf(0);
+        Bus bus = busOf(0);
         ask(bus, channel, 1);
         order(bus, 0, channel, 20);
         bus.policy(1, false);
@@ -114,7 +114,7 @@ final class CrossbarTest {
     }
 
     private static void oneOfEachTarget(int channel) {
-        BusCrossbar bus = new BusCrossbar(2, 2, 8);
+        Bus bus = new Bus(2, 2, 8);
         bus.request(0, sort(channel) + ONE, 0, 0, 0);
         bus.request(1, sort(channel) + ONE, 4096, 0, 0);
         bus.tick(2);
@@ -123,7 +123,7 @@ final class CrossbarTest {
     }
 
     private static void limit(int channel) {
-        BusCrossbar bus = new BusCrossbar(2, 1, 2);
+        Bus bus = new Bus(2, 1, 2);
         bus.slave(0, channel == Check.AW ? Check.B : Check.R, 0);
         for (int i = 0; i < 4; i++) {
             bus.request(0, sort(channel) + ONE, 0, i, 0);
@@ -141,7 +141,7 @@ final class CrossbarTest {
     }
 
     private static void sameId(int channel) {
-        BusCrossbar bus = new BusCrossbar(1, 2, 8);
+        Bus bus = new Bus(1, 2, 8);
         bus.slave(0, channel == Check.AW ? Check.B : Check.R, 0);
         bus.request(0, sort(channel) + ONE, 0, 3, 0);
         bus.request(0, sort(channel) + ONE, 4096, 3, 0);
@@ -158,7 +158,7 @@ final class CrossbarTest {
     }
 
     private static void dataBindToATarget() {
-        BusCrossbar bus = new BusCrossbar(1, 2, 8);
+        Bus bus = new Bus(1, 2, 8);
         bus.master(0, Check.W, 0);
         bus.request(0, Check.WRITE + ONE, 0, 1, 0);
         bus.request(0, Check.WRITE + ONE, 0, 2, 0);
@@ -178,7 +178,7 @@ final class CrossbarTest {
     }
 
     private static void dataInOrderOfAddresses() {
-        BusCrossbar bus = new BusCrossbar(2, 1, 8);
+        Bus bus = new Bus(2, 1, 8);
         bus.master(0, Check.W, 0);
         ask(bus, Check.AW, 0, 1);
         bus.tick(20);
@@ -190,7 +190,7 @@ final class CrossbarTest {
     }
 
     private static void roomOfRows() {
-        BusCrossbar bus = new BusCrossbar(1, 1, 8);
+        Bus bus = new Bus(1, 1, 8);
         bus.slave(0, Check.AR, 0);
         ask(bus, Check.AR, 0, 0, 0, 0, 0, 0, 0);
         bus.tick(20);
@@ -209,7 +209,7 @@ final class CrossbarTest {
     }
 
     private static void defaultTarget() {
-        BusCrossbar bus = new BusCrossbar(2, 1, 8);
+        Bus bus = new Bus(2, 1, 8);
         bus.map(5, -1);
         int read = bus.request(1, Check.how(3, 3, Check.GROWING), 5 * 4096, 9, 0);
         CHECK.due("a read of three takes four", bus.drain(50), 4);
@@ -229,7 +229,7 @@ final class CrossbarTest {
     }
 
     private static void defaultTargetWaits() {
-        BusCrossbar bus = new BusCrossbar(1, 1, 8);
+        Bus bus = new Bus(1, 1, 8);
         bus.map(0, -1);
         bus.master(0, Check.B, 0);
         bus.master(0, Check.R, 0);
@@ -247,7 +247,7 @@ final class CrossbarTest {
     }
 
     /** Goes till all is done: the last digits of the IDs that come to master 0 on a channel. */
-    private static String answers(BusCrossbar bus, int channel) {
+    private static String answers(Bus bus, int channel) {
         StringBuilder order = new StringBuilder();
         for (int i = 0; i < 100; i++) {
             bus.tick(1);
@@ -261,8 +261,8 @@ final class CrossbarTest {
     }
 
     /** Two slaves have all they can answer, and none of it has come to a master. */
-    private static BusCrossbar stopped(int sort, int length) {
-        BusCrossbar bus = new BusCrossbar(1, 2, 8);
+    private static Bus stopped(int sort, int length) {
+        Bus bus = new Bus(1, 2, 8);
         int back = sort == 0 ? Check.R : Check.B;
         bus.slave(0, back, 0);
         bus.slave(1, back, 0);
@@ -277,7 +277,7 @@ final class CrossbarTest {
 
     private static void answersInTurn() {
         CHECK.due("B in turn", answers(stopped(Check.WRITE, 1), Check.B), "1234");
-        BusCrossbar bus = stopped(Check.WRITE, 1);
+        Bus bus = stopped(Check.WRITE, 1);
         bus.slave(0, Check.B, 0);
         bus.tick(20);
         bus.slave(0, Check.B, 65535);
@@ -286,10 +286,10 @@ final class CrossbarTest {
 
     private static void readsInTurn() {
         CHECK.due("R in turn", answers(stopped(0, 2), Check.R), "12123434");
-        BusCrossbar whole = stopped(0, 2);
+        Bus whole = stopped(0, 2);
         whole.policy(1, true);
         CHECK.due("R by whole bursts", answers(whole, Check.R), "11223344");
-        BusCrossbar late = stopped(0, 3);
+        Bus late = stopped(0, 3);
         late.tick(3);
         late.policy(1, true);
         CHECK.due("WHOLE from now on", answers(late, Check.R), "1122333444");

@@ -16,7 +16,7 @@ final class PortTest {
         CHECK.end();
     }
 
-    private static void wires(BusCrossbar bus, String name, int side, int channel, long... want) {
+    private static void wires(Bus bus, String name, int side, int channel, long... want) {
         CHECK.due(name + ": valid", bus.wire(side, 0, channel, 0), want[0]);
         CHECK.due(name + ": ready", bus.wire(side, 0, channel, 1), want[1]);
         CHECK.due(name + ": rest", bus.wire(side, 0, channel, 2), want[2]);
@@ -24,7 +24,7 @@ final class PortTest {
     }
 
     private static void wiresOfAWrite() {
-        BusCrossbar bus = new BusCrossbar(2, 1, 4);
+        Bus bus = new Bus(2, 1, 4);
         int how = Check.how(1, 1, Check.GROWING) + Check.WRITE + 9 * Check.URGENCY;
         bus.request(1, how, 0x1236, 7, 1);
         long data = Check.seedAfter(1, 1) & 0xFFFF000000000000L;
@@ -48,7 +48,7 @@ final class PortTest {
     }
 
     private static void wiresOfARead() {
-        BusCrossbar bus = new BusCrossbar(1, 1, 4);
+        Bus bus = new Bus(1, 1, 4);
         for (int a = 0; a < 16; a++) {
             bus.poke(a, a + 1);
         }
@@ -68,7 +68,7 @@ final class PortTest {
     }
 
     private static void wrongWires() {
-        BusCrossbar bus = new BusCrossbar(2, 3, 4);
+        Bus bus = new Bus(2, 3, 4);
         CHECK.noIndex("side -1", () -> bus.wire(-1, 0, 0, 0));
         CHECK.noIndex("side 2", () -> bus.wire(2, 0, 0, 0));
         CHECK.noIndex("master 2", () -> bus.wire(0, 2, 0, 0));
@@ -91,7 +91,7 @@ final class PortTest {
     }
 
     /** The ticks, of the first 20, in which a wire is up. */
-    private static String ups(BusCrossbar bus, int side, int channel, int what) {
+    private static String ups(Bus bus, int side, int channel, int what) {
         StringBuilder ups = new StringBuilder();
         for (int i = 0; i < 20; i++) {
             bus.tick(1);
@@ -102,8 +102,8 @@ final class PortTest {
         return ups.toString();
     }
 
-    private static BusCrossbar busWith(int requests, int how) {
-        BusCrossbar bus = new BusCrossbar(1, 1, 8);
+    private static Bus busWith(int requests, int how) {
+        Bus bus = new Bus(1, 1, 8);
         for (int i = 0; i < requests; i++) {
             bus.request(0, how, 64 * i, i, i);
         }
@@ -113,7 +113,7 @@ final class PortTest {
     private static void masterPatterns() {
         int write = Check.WRITE + Check.how(1, 0, Check.GROWING);
         int read = Check.how(1, 0, Check.GROWING);
-        BusCrossbar bus = busWith(3, write);
+        Bus bus = busWith(3, write);
         bus.master(0, Check.AW, 0x8014);
         CHECK.due("AW by its pattern", ups(bus, Check.MASTER, Check.AW, 0), "2 4 15 ");
         bus = busWith(3, write);
@@ -135,7 +135,7 @@ final class PortTest {
     private static void slavePatterns() {
         int write = Check.WRITE + Check.how(1, 0, Check.GROWING);
         int read = Check.how(1, 0, Check.GROWING);
-        BusCrossbar bus = busWith(2, write);
+        Bus bus = busWith(2, write);
         bus.slave(0, Check.AW, 0x0109);
         CHECK.due("AW's READY", ups(bus, Check.SLAVE, Check.AW, 1), "0 3 8 16 19 ");
         CHECK.due("AW is held till it is READY", bus.ticket(0, 4), 6);
@@ -154,7 +154,7 @@ final class PortTest {
     }
 
     private static void earlyMaster() {
-        BusCrossbar bus = busWith(2, Check.WRITE + Check.how(1, 0, Check.GROWING));
+        Bus bus = busWith(2, Check.WRITE + Check.how(1, 0, Check.GROWING));
         bus.master(0, Check.AW, 0x8000);
         bus.early(0, true);
         CHECK.due("W ahead of AW", ups(bus, Check.MASTER, Check.W, 0), "0 1 ");
@@ -170,7 +170,7 @@ final class PortTest {
     }
 
     private static void heldStays() {
-        BusCrossbar bus = busWith(8, Check.WRITE + Check.how(16, 3, Check.GROWING));
+        Bus bus = busWith(8, Check.WRITE + Check.how(16, 3, Check.GROWING));
         bus.slave(0, Check.AW, 0);
         bus.slave(0, Check.W, 0);
         bus.tick(40);
@@ -194,7 +194,7 @@ final class PortTest {
     }
 
     private static void transfersOfPorts() {
-        BusCrossbar bus = new BusCrossbar(2, 2, 4);
+        Bus bus = new Bus(2, 2, 4);
         bus.request(1, Check.WRITE + Check.how(4, 0, Check.GROWING), 4096, 0, 0);
         bus.request(1, Check.how(2, 0, Check.GROWING), 0, 0, 0);
         bus.drain(100);
@@ -210,7 +210,7 @@ final class PortTest {
     }
 
     private static void targets() {
-        BusCrossbar bus = new BusCrossbar(1, 2, 8);
+        Bus bus = new Bus(1, 2, 8);
         bus.map(2, -1);
         bus.slave(0, Check.R, 0);
         bus.slave(1, Check.B, 0);
@@ -244,7 +244,7 @@ final class PortTest {
     }
 
     private static void told() {
-        BusCrossbar bus = new BusCrossbar(2, 3, 7);
+        Bus bus = new Bus(2, 3, 7);
         bus.request(0, 0, 0, 0, 0);
         bus.request(1, Check.WRITE, 0, 0, 0);
         bus.policy(2, false);

@@ -21,7 +21,7 @@ final class RequestTest {
     }
 
     private static void writeTickByTick() {
-        BusCrossbar bus = new BusCrossbar(1, 1, 4);
+        Bus bus = new Bus(1, 1, 4);
         bus.tick(3);
         int t = bus.request(0, Check.how(1, 3, Check.GROWING) + Check.WRITE, 64, 9, 5);
         CHECK.due("ticket", t, 0);
@@ -46,7 +46,7 @@ final class RequestTest {
     }
 
     private static void readTickByTick() {
-        BusCrossbar bus = new BusCrossbar(1, 1, 4);
+        Bus bus = new Bus(1, 1, 4);
         bus.poke(10, 200);
         bus.poke(11, 100);
         int t = bus.request(0, Check.how(2, 0, Check.GROWING), 10, 3, 0);
@@ -68,7 +68,7 @@ final class RequestTest {
     }
 
     private static void wrongRequests() {
-        BusCrossbar bus = new BusCrossbar(2, 1, 4);
+        Bus bus = new Bus(2, 1, 4);
         CHECK.noIndex("master -1", () -> bus.request(-1, 0, 0, 0, 0));
         CHECK.noIndex("master before number", () -> bus.request(2, -1, 0, 16, 0));
         CHECK.noIndex("address -1", () -> bus.request(0, 0, -1, 0, 0));
@@ -102,13 +102,13 @@ final class RequestTest {
     }
 
     private static void refused(String name, int how, int address) {
-        BusCrossbar bus = new BusCrossbar(1, 1, 1);
+        Bus bus = new Bus(1, 1, 1);
         CHECK.badNumber(name, () -> bus.request(0, how, address, 0, 0));
         CHECK.badNumber(name + ", a write", () -> bus.request(0, how + Check.WRITE, address, 0, 0));
     }
 
     private static void taken(String name, int how, int address) {
-        BusCrossbar bus = new BusCrossbar(1, 1, 1);
+        Bus bus = new Bus(1, 1, 1);
         CHECK.due(name, bus.request(0, how, address, 0, 0), 0);
         CHECK.due(name + ", a write", bus.request(0, how + Check.WRITE, address, 0, 0), 1);
         CHECK.due(name + " is done", bus.drain(200) > 0 ? 1 : 0, 1);
@@ -116,7 +116,7 @@ final class RequestTest {
     }
 
     private static void roomForTickets() {
-        BusCrossbar bus = new BusCrossbar(1, 1, 8);
+        Bus bus = new Bus(1, 1, 8);
         for (int i = 0; i < 64; i++) {
             CHECK.due("ticket " + i, bus.request(0, (i % 2) * Check.WRITE, i, i % 16, i), i);
             bus.drain(100);
@@ -131,24 +131,27 @@ final class RequestTest {
     }
 
     private static void forgottenManyTimes() {
-        BusCrossbar bus = new BusCrossbar(2, 1, 8);
+        Bus bus = new Bus(2, 1, 8);
         bus.spoil(0, 64, true);
-        for (int round = 0; round < 3; round++) {
-            int sort = round == 1 ? 0 : Check.WRITE;
-            for (int m = 0; m < 2; m++) {
-                for (int i = 0; i < 64; i++) {
-                    bus.request(m, sort, i, i % 16, i);
+        for (int round = 0; round < 6; round++) {
+            int sort = round < 2 || round > 3 ? Check.WRITE : 0;
+            for (int i = 0; i < 64; i++) {
+                bus.request(round % 2, sort, i, i % 16, i);
+                if (i % 32 == 0) {
                     CHECK.due("a new ticket has no response", bus.ticket(i, 1), 0);
-                    bus.drain(100);
-                    CHECK.due("a spoilt byte", bus.ticket(i, 1), 2);
                 }
-                CHECK.due("forgotten", bus.forget(), 64);
+                if (i % 8 == 7) {
+                    bus.drain(100);
+                }
             }
+            CHECK.due("a spoilt byte, of the first one", bus.ticket(0, 1), 2);
+            CHECK.due("a spoilt byte, of the last one", bus.ticket(63, 1), 2);
+            CHECK.due("forgotten", bus.forget(), 64);
         }
     }
 
     private static void roomForAddresses() {
-        BusCrossbar bus = new BusCrossbar(2, 1, 8);
+        Bus bus = new Bus(2, 1, 8);
         for (int i = 0; i < 8; i++) {
             bus.request(0, 0, 0, 0, 0);
         }
@@ -165,7 +168,7 @@ final class RequestTest {
     }
 
     private static void tickAndDrain() {
-        BusCrossbar bus = new BusCrossbar(1, 1, 1);
+        Bus bus = new Bus(1, 1, 1);
         CHECK.badNumber("tick 0", () -> bus.tick(0));
         CHECK.badNumber("tick 101", () -> bus.tick(101));
         CHECK.badNumber("tick -1", () -> bus.tick(-1));
@@ -191,14 +194,14 @@ final class RequestTest {
     }
 
     private static int allTransfers() {
-        BusCrossbar bus = new BusCrossbar(2, 2, 2);
+        Bus bus = new Bus(2, 2, 2);
         bus.request(0, Check.WRITE + Check.how(2, 0, Check.GROWING), 0, 0, 0);
         bus.request(1, Check.how(3, 0, Check.GROWING), 4096, 0, 0);
         return bus.tick(50);
     }
 
     private static void ticketsAndForget() {
-        BusCrossbar bus = new BusCrossbar(1, 2, 1);
+        Bus bus = new Bus(1, 2, 1);
         CHECK.due("nothing to forget", bus.forget(), 0);
         bus.request(0, 0, 4096, 0, 0);
         CHECK.noIndex("ticket -1", () -> bus.ticket(-1, 0));
@@ -219,8 +222,8 @@ final class RequestTest {
         CHECK.due("the default target", bus.ticket(0, 6), 2);
     }
 
-    private static BusCrossbar written(int how, int address, long seed) {
-        BusCrossbar bus = new BusCrossbar(1, 1, 4);
+    private static Bus written(int how, int address, long seed) {
+        Bus bus = new Bus(1, 1, 4);
         bus.request(0, how + Check.WRITE, address, 1, seed);
         bus.drain(200);
         CHECK.sound("write", bus);
@@ -228,7 +231,7 @@ final class RequestTest {
     }
 
     private static void unalignedGrowing() {
-        BusCrossbar bus = written(Check.how(2, 2, Check.GROWING), 5, 77);
+        Bus bus = written(Check.how(2, 2, Check.GROWING), 5, 77);
         long first = Check.seedAfter(77, 1);
         long second = Check.seedAfter(77, 2);
         CHECK.due("bytes 5 to 7", bus.data(0, 0), first & 0xFFFFFF0000000000L);
@@ -244,18 +247,18 @@ final class RequestTest {
     }
 
     private static void fixed() {
-        BusCrossbar bus = written(Check.how(3, 1, Check.FIXED), 6, -8);
+        Bus bus = written(Check.how(3, 1, Check.FIXED), 6, -8);
         long last = Check.seedAfter(-8, 3);
         for (int a = 0; a < 16; a++) {
             CHECK.due("fixed: byte " + a, bus.peek(a), a == 6 || a == 7 ? Check.laneByte(last, a) : 0);
         }
-        BusCrossbar odd = written(Check.how(2, 2, Check.FIXED), 3, 4);
+        Bus odd = written(Check.how(2, 2, Check.FIXED), 3, 4);
         CHECK.due("fixed and not even", odd.data(0, 1), Check.seedAfter(4, 2) & 0xFF000000L);
         CHECK.due("fixed: byte 4", odd.peek(4), 0);
     }
 
     private static void wrapping() {
-        BusCrossbar bus = written(Check.how(4, 2, Check.WRAPPING), 24, 3);
+        Bus bus = written(Check.how(4, 2, Check.WRAPPING), 24, 3);
         int[] starts = {24, 28, 16, 20};
         for (int k = 0; k < 4; k++) {
             for (int a = starts[k]; a < starts[k] + 4; a++) {
@@ -267,7 +270,7 @@ final class RequestTest {
     }
 
     private static void sparse() {
-        BusCrossbar bus = written(Check.how(2, 3, Check.GROWING) + Check.SPARSE, 0, 12345);
+        Bus bus = written(Check.how(2, 3, Check.GROWING) + Check.SPARSE, 0, 12345);
         for (int a = 0; a < 16; a++) {
             long x = Check.seedAfter(12345, 1 + a / 8);
             boolean strobe = (x >>> 56 + a % 8 & 1) == 1;
@@ -277,7 +280,7 @@ final class RequestTest {
     }
 
     private static void responseOfReads() {
-        BusCrossbar bus = new BusCrossbar(1, 1, 4);
+        Bus bus = new Bus(1, 1, 4);
         bus.spoil(1, 1, true);
         int t = bus.request(0, Check.how(3, 0, Check.GROWING), 0, 0, 0);
         int[] responses = {0, 0, 0, 0, 2, 2};

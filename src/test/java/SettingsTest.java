@@ -16,7 +16,7 @@ final class SettingsTest {
     }
 
     private static void newObject() {
-        BusCrossbar bus = new BusCrossbar(3, 2, 5);
+        Bus bus = new Bus(3, 2, 5);
         int[] told = {0, 0, 0, 3, 2, 5, 1};
         for (int what = 0; what < told.length; what++) {
             CHECK.due("new: told " + what, bus.told(what), told[what]);
@@ -35,7 +35,7 @@ final class SettingsTest {
         int[][] made = {{0, 0, 0, 1, 1, 1}, {-7, 5, 9, 1, 4, 8}, {5, -1, 8, 4, 1, 8},
             {Integer.MIN_VALUE, Integer.MAX_VALUE, 2, 1, 4, 2}, {4, 4, Integer.MAX_VALUE, 4, 4, 8}};
         for (int[] row : made) {
-            BusCrossbar bus = new BusCrossbar(row[0], row[1], row[2]);
+            Bus bus = new Bus(row[0], row[1], row[2]);
             CHECK.due("masters " + row[0], bus.told(3), row[3]);
             CHECK.due("slaves " + row[1], bus.told(4), row[4]);
             CHECK.due("limit " + row[2], bus.told(5), row[5]);
@@ -43,7 +43,7 @@ final class SettingsTest {
     }
 
     private static void map() {
-        BusCrossbar bus = new BusCrossbar(1, 3, 4);
+        Bus bus = new Bus(1, 3, 4);
         for (int page = 0; page < 16; page++) {
             CHECK.due("first slave of page " + page, bus.map(page, -1), page % 3);
         }
@@ -65,7 +65,7 @@ final class SettingsTest {
     }
 
     private static void policy() {
-        BusCrossbar bus = new BusCrossbar(1, 1, 1);
+        Bus bus = new Bus(1, 1, 1);
         CHECK.due("first policy", bus.policy(3, true), 1);
         CHECK.due("policy", bus.policy(0, false), 3);
         CHECK.badNumber("policy -1", () -> bus.policy(-1, true));
@@ -74,7 +74,7 @@ final class SettingsTest {
     }
 
     private static void patterns() {
-        BusCrossbar bus = new BusCrossbar(2, 3, 1);
+        Bus bus = new Bus(2, 3, 1);
         for (int c = 0; c < 5; c++) {
             CHECK.due("master's first pattern", bus.master(1, c, 0x12340 + c), 65535);
             CHECK.due("slave's first pattern", bus.slave(2, c, -1 - c), 65535);
@@ -96,7 +96,7 @@ final class SettingsTest {
     }
 
     private static void early() {
-        BusCrossbar bus = new BusCrossbar(2, 1, 1);
+        Bus bus = new Bus(2, 1, 1);
         CHECK.due("not early at first", bus.early(1, true) ? 1 : 0, 0);
         CHECK.due("early", bus.early(1, false) ? 1 : 0, 1);
         CHECK.due("not early again", bus.early(1, false) ? 1 : 0, 0);
@@ -106,7 +106,7 @@ final class SettingsTest {
     }
 
     private static void way() {
-        BusCrossbar bus = new BusCrossbar(1, 2, 1);
+        Bus bus = new Bus(1, 2, 1);
         CHECK.due("first way", bus.way(1, 15, 2), 0);
         CHECK.due("way 2, delay 15", bus.way(1, 3, 1), 47);
         CHECK.due("way 1, delay 3", bus.way(1, 0, 0), 19);
@@ -121,7 +121,7 @@ final class SettingsTest {
     }
 
     private static void spoil() {
-        BusCrossbar bus = new BusCrossbar(1, 1, 1);
+        Bus bus = new Bus(1, 1, 1);
         CHECK.due("ten new", bus.spoil(60, 10, true), 10);
         CHECK.due("two more", bus.spoil(58, 12, true), 2);
         CHECK.due("none new", bus.spoil(63, 2, true), 0);
@@ -138,7 +138,7 @@ final class SettingsTest {
     }
 
     private static void pokeAndPeek() {
-        BusCrossbar bus = new BusCrossbar(1, 1, 1);
+        Bus bus = new Bus(1, 1, 1);
         int[] addresses = {0, 7, 8, 4095, 65535};
         for (int a : addresses) {
             CHECK.due("first byte", bus.peek(a), 0);

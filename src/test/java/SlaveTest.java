@@ -27,7 +27,7 @@ final class SlaveTest {
         CHECK.end();
     }
 
-    private static int run(BusCrossbar bus, int master, int how, int address, int id) {
+    private static int run(Bus bus, int master, int how, int address, int id) {
         int ticket = bus.request(master, how, address, id, 99);
         CHECK.due("it is done", bus.drain(300) > 0 ? 1 : 0, 1);
         CHECK.sound("run", bus);
@@ -37,7 +37,7 @@ final class SlaveTest {
     private static void delays() {
         for (int delay = 0; delay <= 15; delay++) {
             for (int way = 0; way < 3; way++) {
-                BusCrossbar bus = new BusCrossbar(1, 1, 1);
+                Bus bus = new Bus(1, 1, 1);
                 bus.way(0, delay, way);
                 bus.request(0, ONE, 0, 0, 0);
                 CHECK.due("read with delay " + delay, bus.drain(100), 4 + delay);
@@ -48,7 +48,7 @@ final class SlaveTest {
     }
 
     private static void delayOfThoseThatCame() {
-        BusCrossbar bus = new BusCrossbar(1, 1, 1);
+        Bus bus = new Bus(1, 1, 1);
         bus.way(0, 15, 0);
         int ticket = bus.request(0, ONE, 0, 0, 0);
         bus.tick(8);
@@ -58,7 +58,7 @@ final class SlaveTest {
     }
 
     private static void fourAtOnce() {
-        BusCrossbar bus = new BusCrossbar(1, 1, 8);
+        Bus bus = new Bus(1, 1, 8);
         bus.slave(0, Check.B, 0);
         bus.slave(0, Check.R, 0);
         for (int i = 0; i < 6; i++) {
@@ -75,7 +75,7 @@ final class SlaveTest {
 
     /** Bursts with these IDs have come to a slave and are ripe: the order of what it answers. */
     private static String answers(int way, int sort, int length, int... ids) {
-        BusCrossbar bus = new BusCrossbar(1, 1, 8);
+        Bus bus = new Bus(1, 1, 8);
         int back = sort == 0 ? Check.R : Check.B;
         bus.way(0, 0, way);
         bus.slave(0, back, 0);
@@ -87,7 +87,7 @@ final class SlaveTest {
         return order(bus, back);
     }
 
-    private static String order(BusCrossbar bus, int back) {
+    private static String order(Bus bus, int back) {
         StringBuilder order = new StringBuilder();
         for (int i = 0; i < 40; i++) {
             bus.tick(1);
@@ -117,7 +117,7 @@ final class SlaveTest {
     }
 
     private static void latestBeat() {
-        BusCrossbar bus = new BusCrossbar(1, 1, 8);
+        Bus bus = new Bus(1, 1, 8);
         bus.slave(0, Check.R, 0);
         for (int id = 1; id <= 3; id++) {
             bus.request(0, Check.how(2, 0, Check.GROWING), 0, id, 0);
@@ -129,7 +129,7 @@ final class SlaveTest {
         bus.way(0, 0, 2);
         bus.slave(0, Check.R, 65535);
         CHECK.due("behind that beat", order(bus, Check.R), "23123");
-        BusCrossbar begun = new BusCrossbar(1, 1, 8);
+        Bus begun = new Bus(1, 1, 8);
         begun.way(0, 0, 1);
         begun.slave(0, Check.R, 8);
         begun.request(0, Check.how(2, 0, Check.GROWING), 0, 1, 0);
@@ -141,7 +141,7 @@ final class SlaveTest {
     }
 
     private static void chosenStaysHeld() {
-        BusCrossbar bus = new BusCrossbar(1, 1, 8);
+        Bus bus = new Bus(1, 1, 8);
         bus.way(0, 0, 1);
         bus.master(0, Check.R, 0);
         bus.master(0, Check.B, 0);
@@ -169,7 +169,7 @@ final class SlaveTest {
     }
 
     private static void readAtOnce() {
-        BusCrossbar bus = new BusCrossbar(1, 1, 8);
+        Bus bus = new Bus(1, 1, 8);
         bus.way(0, 10, 0);
         bus.poke(3, 1);
         int ticket = bus.request(0, ONE, 3, 0, 0);
@@ -182,7 +182,7 @@ final class SlaveTest {
     }
 
     private static void writeWhenComplete() {
-        BusCrossbar bus = new BusCrossbar(1, 1, 8);
+        Bus bus = new Bus(1, 1, 8);
         bus.request(0, Check.WRITE + Check.how(2, 3, Check.GROWING), 0, 0, 7);
         bus.tick(3);
         CHECK.due("the first beat came", bus.port(Check.SLAVE, 0, Check.W), 1);
@@ -193,7 +193,7 @@ final class SlaveTest {
     }
 
     private static void spoiltReads() {
-        BusCrossbar bus = new BusCrossbar(1, 1, 8);
+        Bus bus = new Bus(1, 1, 8);
         for (int a = 0; a < 16; a++) {
             bus.poke(a, 17);
         }
@@ -209,7 +209,7 @@ final class SlaveTest {
     }
 
     private static void spoiltWrites() {
-        BusCrossbar bus = new BusCrossbar(1, 1, 8);
+        Bus bus = new Bus(1, 1, 8);
         bus.spoil(12, 1, true);
         int ticket = run(bus, 0, Check.WRITE + Check.how(4, 2, Check.GROWING), 0, 1);
         CHECK.due("the slave's error", bus.ticket(ticket, 1), 2);
@@ -220,7 +220,7 @@ final class SlaveTest {
         CHECK.due("no spoilt byte", bus.ticket(ticket, 1), 0);
         CHECK.due("written", bus.peek(11), Check.laneByte(Check.seedAfter(99, 3), 11));
         for (int lane = 0; lane < 8; lane++) {
-            BusCrossbar sparse = new BusCrossbar(1, 1, 8);
+            Bus sparse = new Bus(1, 1, 8);
             sparse.spoil(lane, 1, true);
             ticket = run(sparse, 0, Check.WRITE + Check.SPARSE + EIGHT, 0, 1);
             boolean strobe = (Check.seedAfter(99, 1) >>> 56 + lane & 1) == 1;
@@ -229,7 +229,7 @@ final class SlaveTest {
     }
 
     private static void rightsAreGivenAndUsed() {
-        BusCrossbar bus = new BusCrossbar(3, 2, 8);
+        Bus bus = new Bus(3, 2, 8);
         int how = Check.how(4, 2, Check.GROWING) + Check.EXCLUSIVE;
         int read = run(bus, 2, how, 4096 + 32, 5);
         CHECK.due("exclusive okay", bus.ticket(read, 1), 1);
@@ -249,7 +249,7 @@ final class SlaveTest {
     }
 
     private static void rightsOfOthers() {
-        BusCrossbar bus = new BusCrossbar(2, 1, 8);
+        Bus bus = new Bus(2, 1, 8);
         int how = EIGHT + Check.EXCLUSIVE;
         run(bus, 0, how, 8, 1);
         run(bus, 1, how, 8, 1);
@@ -266,7 +266,7 @@ final class SlaveTest {
     }
 
     private static void rightsOfOtherBytes() {
-        BusCrossbar bus = new BusCrossbar(1, 1, 8);
+        Bus bus = new Bus(1, 1, 8);
         int how = EIGHT + Check.EXCLUSIVE;
         run(bus, 0, how, 8, 1);
         run(bus, 0, how, 64, 1);
@@ -284,7 +284,7 @@ final class SlaveTest {
     }
 
     private static void rightsAndSpoiltBytes() {
-        BusCrossbar bus = new BusCrossbar(1, 1, 8);
+        Bus bus = new Bus(1, 1, 8);
         int how = Check.how(2, 3, Check.GROWING) + Check.EXCLUSIVE;
         run(bus, 0, how, 64, 1);
         bus.spoil(12, 1, true);
@@ -306,17 +306,17 @@ final class SlaveTest {
         int[] addresses = {15, 16, 31, 32};
         int[] rights = {16, -1, -1, 16};
         for (int i = 0; i < addresses.length; i++) {
-            BusCrossbar bus = new BusCrossbar(2, 1, 8);
+            Bus bus = new Bus(2, 1, 8);
             run(bus, 0, Check.how(2, 3, Check.GROWING) + Check.EXCLUSIVE, 16, 1);
             run(bus, 1, Check.WRITE + ONE, addresses[i], 1);
             CHECK.due("right behind a write of " + addresses[i], bus.right(0, 1), rights[i]);
         }
-        BusCrossbar own = new BusCrossbar(1, 1, 8);
+        Bus own = new Bus(1, 1, 8);
         run(own, 0, EIGHT + Check.EXCLUSIVE, 16, 1);
         run(own, 0, Check.WRITE + ONE, 16, 1);
         CHECK.due("its own write takes it, too", own.right(0, 1), -1);
         for (int lane = 0; lane < 8; lane++) {
-            BusCrossbar sparse = new BusCrossbar(2, 1, 8);
+            Bus sparse = new Bus(2, 1, 8);
             run(sparse, 0, ONE + Check.EXCLUSIVE, lane, 1);
             run(sparse, 1, Check.WRITE + Check.SPARSE + EIGHT, 0, 1);
             boolean strobe = (Check.seedAfter(99, 1) >>> 56 + lane & 1) == 1;
@@ -325,9 +325,10 @@ final class SlaveTest {
     }
 
     private static void rightsOfEachId() {
-        BusCrossbar bus = new BusCrossbar(4, 1, 8);
+        Bus bus = new Bus(4, 1, 8);
         for (int id = 0; id < 64; id++) {
-            run(bus, id / 16, EIGHT + Check.EXCLUSIVE, 8 * id, id % 16);
+            bus.request(id / 16, EIGHT + Check.EXCLUSIVE, 8 * id, id % 16, 0);
+            bus.drain(100);
             CHECK.due("right of " + id, bus.right(0, id), 8 * id);
             if (id % 32 == 31) {
                 bus.forget();
@@ -341,7 +342,7 @@ final class SlaveTest {
     }
 
     private static void rightsAndPages() {
-        BusCrossbar bus = new BusCrossbar(1, 2, 8);
+        Bus bus = new Bus(1, 2, 8);
         run(bus, 0, EIGHT + Check.EXCLUSIVE, 0, 1);
         bus.map(0, 1);
         run(bus, 0, Check.WRITE + EIGHT, 0, 1);
@@ -353,7 +354,7 @@ final class SlaveTest {
     }
 
     private static void wrongRights() {
-        BusCrossbar bus = new BusCrossbar(1, 2, 8);
+        Bus bus = new Bus(1, 2, 8);
         CHECK.noIndex("slave -1", () -> bus.right(-1, 0));
         CHECK.noIndex("slave before id", () -> bus.right(2, 64));
         CHECK.badNumber("id -1", () -> bus.right(0, -1));

@@ -13,7 +13,7 @@ final class SoakTest {
         for (int seed = 0; seed < 300; seed++) {
             wildCalls(seed);
         }
-        for (int seed = 0; seed < 200; seed++) {
+        for (int seed = 0; seed < 800; seed++) {
             oneMasterInOrder(seed);
         }
         for (int seed = 0; seed < 200; seed++) {
@@ -27,9 +27,9 @@ final class SoakTest {
         Random random = new Random(seed);
         int masters = random.nextInt(6);
         int slaves = random.nextInt(6);
-        BusCrossbar all = new BusCrossbar(masters, slaves, random.nextInt(10));
-        BusCrossbar spared = new BusCrossbar(masters, slaves, all.told(5));
-        for (int i = 0; i < 500; i++) {
+        Bus all = new Bus(masters, slaves, random.nextInt(10));
+        Bus spared = new Bus(masters, slaves, all.told(5));
+        for (int i = 0; i < 490; i++) {
             int[] numbers = new int[6];
             numbers[0] = random.nextInt(3) == 0 ? REQUEST : random.nextInt(CALLS);
             for (int k = 1; k < numbers.length; k++) {
@@ -48,7 +48,7 @@ final class SoakTest {
         CHECK.sound("seed " + seed, all);
     }
 
-    private static long answer(BusCrossbar bus, int[] n) {
+    private static long answer(Bus bus, int[] n) {
         try {
             return n[0] < 13 ? setOrAsk(bus, n) : look(bus, n);
         } catch (IndexOutOfBoundsException | IllegalStateException | IllegalArgumentException
@@ -62,7 +62,7 @@ final class SoakTest {
         }
     }
 
-    private static long setOrAsk(BusCrossbar bus, int[] n) {
+    private static long setOrAsk(Bus bus, int[] n) {
         switch (n[0]) {
             case 0:
                 return bus.map(n[1], n[2]);
@@ -93,7 +93,7 @@ final class SoakTest {
         }
     }
 
-    private static long look(BusCrossbar bus, int[] n) {
+    private static long look(Bus bus, int[] n) {
         switch (n[0]) {
             case 13:
                 return bus.data(n[1], n[2]);
@@ -129,7 +129,7 @@ final class SoakTest {
         }
     }
 
-    private static void shape(BusCrossbar bus, Random random) {
+    private static void shape(Bus bus, Random random) {
         for (int m = 0; m < bus.told(3); m++) {
             bus.early(m, random.nextBoolean());
             bus.master(m, random.nextInt(5), 1 << random.nextInt(16) | random.nextInt(65536));
@@ -145,10 +145,11 @@ final class SoakTest {
     /** With one request at a time, memory is what a plain row of bytes would be. */
     private static void oneMasterInOrder(int seed) {
         Random random = new Random(seed);
-        BusCrossbar bus = new BusCrossbar(1, 1 + random.nextInt(4), 1 + random.nextInt(8));
+        Bus bus = new Bus(1, 1 + random.nextInt(4), 1 + random.nextInt(8));
         shape(bus, random);
         int[] bytes = new int[65536];
-        for (int i = 0; i < 50; i++) {
+        int slaves = bus.told(4);
+        while (bus.callsLeft() > 50) {
             int size = random.nextInt(4);
             int length = 1 + random.nextInt(16);
             int how = Check.how(length, size, Check.GROWING) + 256 * random.nextInt(2);
@@ -156,19 +157,21 @@ final class SoakTest {
             long x = random.nextLong();
             int ticket = bus.request(0, how, address, random.nextInt(16), x);
             CHECK.due("done", bus.drain(1000) > 0 ? 1 : 0, 1);
-            boolean slave = bus.ticket(ticket, 6) < bus.told(4);
+            boolean slave = bus.ticket(ticket, 6) < slaves;
             CHECK.due("response", bus.ticket(ticket, 1), slave ? 0 : 3);
             int from = address;
             for (int k = 0; k < length && slave; k++) {
                 int end = (from >> size) + 1 << size;
                 x = Check.seedAfter(x, 1);
+                long data = bus.data(ticket, k);
                 for (int a = from; a < end; a++) {
                     if (how >= 256) {
                         bytes[a] = Check.laneByte(x, a);
                     }
-                    CHECK.due("byte " + a, Check.laneByte(bus.data(ticket, k), a), bytes[a]);
-                    CHECK.due("memory " + a, bus.peek(a), bytes[a]);
+                    CHECK.due("byte " + a, Check.laneByte(data, a), bytes[a]);
                 }
+                int seen = from + random.nextInt(end - from);
+                CHECK.due("memory " + seen, bus.peek(seen), bytes[seen]);
                 from = end;
             }
         }
@@ -178,7 +181,7 @@ final class SoakTest {
     /** With many at once, all is done in the end, no monitor finds a fault, and all counts agree. */
     private static void manyMasters(int seed) {
         Random random = new Random(seed);
-        BusCrossbar bus = new BusCrossbar(1 + random.nextInt(4), 1 + random.nextInt(4), 1 + random.nextInt(8));
+        Bus bus = new Bus(1 + random.nextInt(4), 1 + random.nextInt(4), 1 + random.nextInt(8));
         shape(bus, random);
         int transfers = 0;
         for (int i = 0; i < 64; i++) {
@@ -194,14 +197,16 @@ final class SoakTest {
         CHECK.sound("seed " + seed, bus);
         int counted = 0;
         for (int side = 0; side < 2; side++) {
-            for (int k = 0; k < bus.told(3 + side); k++) {
+            int count = bus.told(3 + side);
+            for (int k = 0; k < count; k++) {
                 for (int c = 0; c < 5; c++) {
                     counted += bus.port(side, k, c);
                 }
             }
         }
         CHECK.due("seed " + seed + ": transfers", counted, transfers);
-        for (int t = 0; t <= bus.told(4); t++) {
+        int slaves = bus.told(4);
+        for (int t = 0; t <= slaves; t++) {
             for (int what = 0; what < 4; what++) {
                 CHECK.due("seed " + seed + ": nothing is left", bus.target(t, what), 0);
             }

@@ -31,36 +31,36 @@ final class WatcherTest {
         CHECK.end();
     }
 
-    private static BusCrossbar bus() {
-        return new BusCrossbar(1, 1, 1);
+    private static Bus bus() {
+        return new Bus(1, 1, 1);
     }
 
-    private static void aw(BusCrossbar bus, int how, int id, int a, int wires) {
+    private static void aw(Bus bus, int how, int id, int a, int wires) {
         bus.see(0, Check.AW, wires, Check.address(id, a, how), 0);
     }
 
-    private static void ar(BusCrossbar bus, int how, int id, int a, int wires) {
+    private static void ar(Bus bus, int how, int id, int a, int wires) {
         bus.see(0, Check.AR, wires, Check.address(id, a, how), 0);
     }
 
-    private static void w(BusCrossbar bus, int rest) {
+    private static void w(Bus bus, int rest) {
         bus.see(0, Check.W, Check.BOTH, 0, rest);
     }
 
-    private static void b(BusCrossbar bus, int id, int response) {
+    private static void b(Bus bus, int id, int response) {
         bus.see(0, Check.B, Check.BOTH, 0, id + 64 * response);
     }
 
-    private static void r(BusCrossbar bus, int id, int response, boolean last) {
+    private static void r(Bus bus, int id, int response, boolean last) {
         bus.see(0, Check.R, Check.BOTH, 0, id + 64 * response + (last ? LAST : 0));
     }
 
-    private static void goes(String name, BusCrossbar bus) {
+    private static void goes(String name, Bus bus) {
         CHECK.due(name, bus.judge(0), 0);
     }
 
     /** The tick breaks a rule: which, on which channel, in the latest tick. */
-    private static void breaks(String name, BusCrossbar bus, int rule, int channel) {
+    private static void breaks(String name, Bus bus, int rule, int channel) {
         int tick = bus.watched(0, 3);
         CHECK.due(name + ": judge", bus.judge(0), rule);
         CHECK.due(name + ": rule", bus.watched(0, 0), rule);
@@ -68,13 +68,13 @@ final class WatcherTest {
         CHECK.due(name + ": tick", bus.watched(0, 2), tick);
     }
 
-    private static void keeps(String name, BusCrossbar bus, int writes, int reads) {
+    private static void keeps(String name, Bus bus, int writes, int reads) {
         CHECK.due(name + ": writes", bus.watched(0, 4), writes);
         CHECK.due(name + ": reads", bus.watched(0, 5), reads);
     }
 
     private static void wrongCalls() {
-        BusCrossbar bus = bus();
+        Bus bus = bus();
         CHECK.noIndex("see: watcher -1", () -> bus.see(-1, 0, 0, 0, 0));
         CHECK.noIndex("see: watcher before how", () -> bus.see(2, 0, 4, 0, 0));
         CHECK.noIndex("see: channel before rest", () -> bus.see(1, 5, 0, 0, 512));
@@ -95,7 +95,7 @@ final class WatcherTest {
     }
 
     private static void nothing() {
-        BusCrossbar bus = bus();
+        Bus bus = bus();
         for (int tick = 0; tick < 3; tick++) {
             CHECK.due("ticks", bus.watched(0, 3), tick);
             goes("nothing", bus);
@@ -110,7 +110,7 @@ final class WatcherTest {
     }
 
     private static void toldAgain() {
-        BusCrossbar bus = bus();
+        Bus bus = bus();
         bus.see(0, Check.B, Check.BOTH, 0, 0);
         bus.see(0, Check.B, Check.IDLE, 0, 0);
         goes("told again, and idle", bus);
@@ -128,13 +128,13 @@ final class WatcherTest {
 
     private static void fell() {
         for (int c : new int[] {Check.AW, Check.W, Check.AR}) {
-            BusCrossbar bus = bus();
+            Bus bus = bus();
             bus.see(0, c, Check.VALID, Check.address(1, 0, ONE), 0);
             goes("held", bus);
             bus.see(0, c, Check.READY, Check.address(1, 0, ONE), 0);
             breaks("fell " + c, bus, 1, c);
         }
-        BusCrossbar held = bus();
+        Bus held = bus();
         ar(held, ONE, 1, 0, Check.VALID);
         goes("held 0", held);
         ar(held, ONE, 1, 0, Check.VALID);
@@ -146,7 +146,7 @@ final class WatcherTest {
         held.see(0, Check.R, Check.VALID, 3, 1 + LAST);
         goes("R is held", held);
         breaks("R fell", held, 1, Check.R);
-        BusCrossbar write = bus();
+        Bus write = bus();
         aw(write, ONE, 1, 0, Check.BOTH);
         w(write, LAST);
         goes("a write", write);
@@ -157,18 +157,18 @@ final class WatcherTest {
 
     private static void changed() {
         for (int c : new int[] {Check.AW, Check.W, Check.AR}) {
-            BusCrossbar content = bus();
+            Bus content = bus();
             content.see(0, c, Check.VALID, Check.address(1, 0, ONE), 0);
             goes("held", content);
             content.see(0, c, Check.BOTH, Check.address(2, 0, ONE), 0);
             breaks("another content " + c, content, 2, c);
-            BusCrossbar rest = bus();
+            Bus rest = bus();
             rest.see(0, c, Check.VALID, Check.address(1, 0, ONE), 0);
             goes("held", rest);
             rest.see(0, c, Check.VALID, Check.address(1, 0, ONE), 1);
             breaks("another rest " + c, rest, 2, c);
         }
-        BusCrossbar high = bus();
+        Bus high = bus();
         high.see(0, Check.W, Check.VALID, 1L << 63, 0);
         goes("held", high);
         high.see(0, Check.W, Check.VALID, 0, 0);
@@ -193,7 +193,7 @@ final class WatcherTest {
 
     private static void burst(String name, int how, int address, int rule) {
         for (int c : new int[] {Check.AW, Check.AR}) {
-            BusCrossbar bus = bus();
+            Bus bus = bus();
             bus.judge(0);
             bus.see(0, c, Check.VALID, Check.address(63, address, how), 0);
             if (rule == 0) {
@@ -205,7 +205,7 @@ final class WatcherTest {
     }
 
     private static void goodWrite() {
-        BusCrossbar bus = bus();
+        Bus bus = bus();
         int how = Check.how(2, 2, Check.GROWING) + Check.EXCLUSIVE;
         aw(bus, how, 40, 8, Check.BOTH);
         w(bus, 15);
@@ -219,7 +219,7 @@ final class WatcherTest {
     }
 
     private static void goodRead() {
-        BusCrossbar bus = bus();
+        Bus bus = bus();
         ar(bus, Check.how(2, 2, Check.GROWING) + Check.EXCLUSIVE, 40, 8, Check.BOTH);
         goes("address", bus);
         keeps("a read", bus, 0, 1);
@@ -232,26 +232,26 @@ final class WatcherTest {
     }
 
     private static void noWrite() {
-        BusCrossbar none = bus();
+        Bus none = bus();
         b(none, 0, 0);
         breaks("no write", none, 9, Check.B);
-        BusCrossbar address = bus();
+        Bus address = bus();
         aw(address, ONE, 1, 0, Check.BOTH);
         goes("just an address", address);
         b(address, 1, 0);
         breaks("without data", address, 9, Check.B);
-        BusCrossbar data = bus();
+        Bus data = bus();
         w(data, LAST);
         goes("just data", data);
         b(data, 0, 0);
         breaks("without an address", data, 9, Check.B);
-        BusCrossbar tick = bus();
+        Bus tick = bus();
         aw(tick, ONE, 1, 0, Check.BOTH);
         goes("address", tick);
         w(tick, LAST);
         b(tick, 1, 0);
         breaks("with its data in one tick", tick, 9, Check.B);
-        BusCrossbar id = bus();
+        Bus id = bus();
         aw(id, ONE, 1, 0, Check.BOTH);
         w(id, LAST);
         goes("all of it", id);
@@ -260,19 +260,19 @@ final class WatcherTest {
     }
 
     private static void noRead() {
-        BusCrossbar none = bus();
+        Bus none = bus();
         none.see(0, Check.R, Check.VALID, 0, 0);
         breaks("no read", none, 10, Check.R);
-        BusCrossbar tick = bus();
+        Bus tick = bus();
         ar(tick, ONE, 1, 0, Check.BOTH);
         r(tick, 1, 0, true);
         breaks("with its address in one tick", tick, 10, Check.R);
-        BusCrossbar id = bus();
+        Bus id = bus();
         ar(id, ONE, 1, 0, Check.BOTH);
         goes("address", id);
         r(id, 33, 0, true);
         breaks("another ID", id, 10, Check.R);
-        BusCrossbar gone = bus();
+        Bus gone = bus();
         ar(gone, ONE, 1, 0, Check.BOTH);
         goes("address", gone);
         r(gone, 1, 0, true);
@@ -282,7 +282,7 @@ final class WatcherTest {
     }
 
     private static void answerOfWrites() {
-        BusCrossbar bus = bus();
+        Bus bus = bus();
         aw(bus, ONE, 1, 0, Check.BOTH);
         w(bus, LAST);
         goes("a write", bus);
@@ -304,7 +304,7 @@ final class WatcherTest {
     }
 
     private static void answerOfReads() {
-        BusCrossbar bus = bus();
+        Bus bus = bus();
         ar(bus, ONE + Check.EXCLUSIVE, 1, 0, Check.BOTH);
         goes("an exclusive read", bus);
         ar(bus, ONE, 1, 0, Check.BOTH);
@@ -315,19 +315,19 @@ final class WatcherTest {
     }
 
     private static void lastOfReads() {
-        BusCrossbar early = bus();
+        Bus early = bus();
         ar(early, Check.how(2, 0, Check.GROWING), 1, 0, Check.BOTH);
         goes("address", early);
         r(early, 1, 1, true);
         breaks("LAST too early, before the answer", early, 7, Check.R);
-        BusCrossbar late = bus();
+        Bus late = bus();
         ar(late, Check.how(2, 0, Check.GROWING), 1, 0, Check.BOTH);
         goes("address", late);
         r(late, 1, 0, false);
         goes("first", late);
         r(late, 1, 0, false);
         breaks("not LAST", late, 7, Check.R);
-        BusCrossbar ids = bus();
+        Bus ids = bus();
         ar(ids, Check.how(2, 0, Check.GROWING), 1, 0, Check.BOTH);
         goes("address", ids);
         ar(ids, Check.how(2, 0, Check.GROWING), 2, 0, Check.BOTH);
@@ -342,16 +342,16 @@ final class WatcherTest {
     }
 
     private static void lastOfWrites() {
-        BusCrossbar early = bus();
+        Bus early = bus();
         aw(early, Check.how(2, 0, Check.GROWING), 1, 0, Check.BOTH);
         w(early, LAST + 1);
         breaks("LAST too early", early, 7, Check.W);
-        BusCrossbar late = bus();
+        Bus late = bus();
         aw(late, ONE, 1, 0, Check.BOTH);
         goes("address", late);
         w(late, 1);
         breaks("not LAST", late, 7, Check.W);
-        BusCrossbar held = bus();
+        Bus held = bus();
         aw(held, ONE, 1, 0, Check.BOTH);
         held.see(0, Check.W, Check.VALID, 0, 1);
         goes("not before it is transferred", held);
@@ -361,7 +361,7 @@ final class WatcherTest {
 
     private static void strobes() {
         int how = Check.how(3, 1, Check.GROWING);
-        BusCrossbar good = bus();
+        Bus good = bus();
         aw(good, how, 1, 5, Check.BOTH);
         w(good, 0x20);
         goes("byte 5", good);
@@ -371,22 +371,22 @@ final class WatcherTest {
         goes("bytes 8 and 9", good);
         int[] wrong = {0x10, 0x40, 1};
         for (int rest : wrong) {
-            BusCrossbar bad = bus();
+            Bus bad = bus();
             aw(bad, how, 1, 5, Check.BOTH);
             w(bad, rest);
             breaks("strobes " + rest, bad, 8, Check.W);
         }
-        BusCrossbar both = bus();
+        Bus both = bus();
         aw(both, ONE, 1, 7, Check.BOTH);
         w(both, 1);
         breaks("LAST before strobes", both, 7, Check.W);
-        BusCrossbar wrap = bus();
+        Bus wrap = bus();
         aw(wrap, Check.how(2, 2, Check.WRAPPING), 1, 4, Check.BOTH);
         w(wrap, 0xF0);
         goes("bytes 4 to 7", wrap);
         w(wrap, LAST + 0xF0);
         breaks("it wraps to 0", wrap, 8, Check.W);
-        BusCrossbar fixed = bus();
+        Bus fixed = bus();
         aw(fixed, Check.how(2, 2, Check.FIXED), 1, 4, Check.BOTH);
         w(fixed, 0xF0);
         goes("bytes 4 to 7", fixed);
@@ -395,7 +395,7 @@ final class WatcherTest {
     }
 
     private static void dataBeforeAddress() {
-        BusCrossbar bus = bus();
+        Bus bus = bus();
         w(bus, 0xFF);
         goes("a beat", bus);
         w(bus, LAST + 0xFF);
@@ -410,19 +410,19 @@ final class WatcherTest {
         keeps("one write", bus, 1, 0);
         aw(bus, ONE, 2, 1, Check.BOTH);
         breaks("a strobe of no byte", bus, 8, Check.AW);
-        BusCrossbar late = bus();
+        Bus late = bus();
         w(late, 0);
         goes("a beat", late);
         w(late, 0);
         goes("a beat", late);
         aw(late, ONE, 2, 1, Check.BOTH);
         breaks("more beats than its length", late, 7, Check.AW);
-        BusCrossbar early = bus();
+        Bus early = bus();
         w(early, LAST);
         goes("a beat", early);
         aw(early, Check.how(2, 3, Check.GROWING), 2, 0, Check.BOTH);
         breaks("fewer beats", early, 7, Check.AW);
-        BusCrossbar between = bus();
+        Bus between = bus();
         w(between, 0);
         goes("a beat", between);
         aw(between, Check.how(2, 3, Check.GROWING), 2, 0, Check.BOTH);
@@ -434,7 +434,7 @@ final class WatcherTest {
     }
 
     private static void fullReads() {
-        BusCrossbar bus = bus();
+        Bus bus = bus();
         for (int i = 0; i < 16; i++) {
             ar(bus, ONE, i, 0, Check.BOTH);
             goes("read " + i, bus);
@@ -448,7 +448,7 @@ final class WatcherTest {
     }
 
     private static void fullWrites() {
-        BusCrossbar addresses = bus();
+        Bus addresses = bus();
         for (int i = 0; i < 16; i++) {
             aw(addresses, ONE, i, 0, Check.BOTH);
             goes("address " + i, addresses);
@@ -460,7 +460,7 @@ final class WatcherTest {
         keeps("16 writes", addresses, 16, 0);
         addresses.see(0, Check.W, Check.BOTH, 0, LAST);
         breaks("data of a 17th", addresses, 12, Check.W);
-        BusCrossbar data = bus();
+        Bus data = bus();
         for (int i = 0; i < 16; i++) {
             w(data, LAST);
             goes("data " + i, data);
@@ -475,7 +475,7 @@ final class WatcherTest {
     }
 
     private static void seventeenthBeat() {
-        BusCrossbar bus = bus();
+        Bus bus = bus();
         for (int i = 0; i < 16; i++) {
             w(bus, 0);
             goes("beat " + i, bus);
@@ -485,25 +485,25 @@ final class WatcherTest {
     }
 
     private static void orderInATick() {
-        BusCrossbar channels = bus();
+        Bus channels = bus();
         aw(channels, Check.how(1, 0, 3), 0, 0, Check.VALID);
         b(channels, 0, 0);
         r(channels, 0, 0, true);
         breaks("the least channel", channels, 3, Check.AW);
-        BusCrossbar later = bus();
+        Bus later = bus();
         later.see(0, Check.W, Check.VALID, 0, 0);
         ar(later, ONE, 0, 0, Check.VALID);
         goes("held", later);
         b(later, 0, 0);
         later.see(0, Check.W, Check.VALID, 0, 0);
         breaks("B before AR that fell", later, 9, Check.B);
-        BusCrossbar transfers = bus();
+        Bus transfers = bus();
         aw(transfers, ONE, 0, 0, Check.BOTH);
         w(transfers, 0);
         r(transfers, 0, 0, true);
         breaks("wires before transfers", transfers, 10, Check.R);
         keeps("no transfer counts", transfers, 0, 0);
-        BusCrossbar sorts = bus();
+        Bus sorts = bus();
         for (int i = 0; i < 16; i++) {
             ar(sorts, ONE, i, 0, Check.BOTH);
             goes("read " + i, sorts);
@@ -516,7 +516,7 @@ final class WatcherTest {
     }
 
     private static void faultStays() {
-        BusCrossbar bus = bus();
+        Bus bus = bus();
         goes("tick 0", bus);
         b(bus, 0, 0);
         breaks("no write", bus, 9, Check.B);
@@ -543,7 +543,7 @@ final class WatcherTest {
     }
 
     private static void answersMakeRoom() {
-        BusCrossbar bus = bus();
+        Bus bus = bus();
         for (int i = 0; i < 16; i++) {
             aw(bus, ONE, i, 0, Check.BOTH);
             ar(bus, ONE, i, 0, Check.BOTH);
@@ -565,7 +565,7 @@ final class WatcherTest {
     }
 
     private static void twoWatchers() {
-        BusCrossbar bus = bus();
+        Bus bus = bus();
         bus.see(1, Check.B, Check.VALID, 0, 0);
         goes("watcher 0", bus);
         CHECK.due("watcher 1", bus.judge(1), 9);
