@@ -23,6 +23,7 @@ final class CrossbarBoundsTest {
         rowsOfData();
         rowsOfAnswers();
         rowsOfReadBeats();
+        dataOfOtherTargets();
         limitTillItsAnswerIsMoved();
         limitTillItsLastBeatIsMoved();
         addressesOfTheDefaultTarget();
@@ -126,6 +127,22 @@ final class CrossbarBoundsTest {
         CHECK.due("nine went", bus.port(Check.SLAVE, 0, Check.R), 9);
     }
 
+    /** Data wait for those of an earlier write to the same target, not to another one. */
+    private static void dataOfOtherTargets() {
+        for (int address : new int[] {0, 4096, 8192}) {
+            Bus bus = new Bus(2, 2, 8);
+            bus.map(2, -1);
+            bus.master(0, Check.W, 0);
+            bus.request(0, Check.WRITE + ONE, 0, 0, 0);
+            bus.tick(3);
+            int write = bus.request(1, Check.WRITE + ONE, address, 0, 0);
+            bus.tick(30);
+            CHECK.due("a write at " + address, bus.ticket(write, 0), address == 0 ? 1 : 2);
+            bus.master(0, Check.W, ALL);
+            CHECK.due("then both", bus.drain(30) > 0, true);
+        }
+    }
+
     /** So many are under way as the LIMIT tells, to all targets together, and not one more. */
     private static void limitOf(int channel, int limit) {
         Bus bus = new Bus(2, 2, limit);
@@ -220,20 +237,18 @@ final class CrossbarBoundsTest {
         CHECK.due("slave 0 begins with 0", order(bus, channel, 20), "01");
     }
 
+    /** All are requested at once; master 1's comes to the crossbar one tick ahead, or in the same tick. */
     private static void earliestTick(int channel) {
         for (int ahead = 0; ahead < 2; ahead++) {
             Bus bus = new Bus(3, 1, 8);
             bus.policy(2, false);
             bus.slave(0, channel, 0);
-            bus.request(2, sort(channel) + ONE, 0, 0, 0);
-            bus.request(2, sort(channel) + ONE, 0, 0, 0);
-            bus.tick(5);
-            bus.request(1, sort(channel) + ONE, 0, 0, 0);
-            if (ahead == 1) {
-                bus.tick(1);
+            bus.master(0, channel, 1 << 6);
+            bus.master(1, channel, 1 << 6 - ahead);
+            for (int m : new int[] {2, 2, 0, 1}) {
+                bus.request(m, sort(channel) + ONE, 0, 0, 0);
             }
-            bus.request(0, sort(channel) + ONE, 0, 0, 0);
-            bus.tick(5);
+            bus.tick(10);
             bus.slave(0, channel, ALL);
             String want = ahead == 1 ? "2210" : "2201";
             CHECK.due("ahead by " + ahead + " ticks", order(bus, channel, 20), want);

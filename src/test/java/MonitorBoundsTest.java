@@ -12,6 +12,7 @@ final class MonitorBoundsTest {
         sixteenOfData();
         sixteenOfBoth();
         roomOfAnAnswer();
+        noneOfSixteen();
         sixteenBeats();
         for (int length = 1; length <= 16; length++) {
             lastBeatOfReads(length);
@@ -207,6 +208,28 @@ final class MonitorBoundsTest {
         aw(bus, ONE, 20, 0);
         w(bus, LAST);
         breaks("its address has room, more data have none", bus, 12, Check.W);
+    }
+
+    /** All sixteen are looked at, and none of them has the ID. */
+    private static void noneOfSixteen() {
+        Bus reads = reads(16);
+        r(reads, 16);
+        breaks("R of none of sixteen", reads, 10, Check.R);
+        Bus last = reads(16);
+        r(last, 15);
+        goes("R of the last of sixteen", last);
+        Bus writes = addresses(16);
+        for (int i = 0; i < 16; i++) {
+            w(writes, LAST);
+            goes("data of " + i, writes);
+        }
+        b(writes, 15);
+        goes("B of the last of sixteen", writes);
+        aw(writes, ONE, 17, 0);
+        w(writes, LAST);
+        goes("sixteen again", writes);
+        b(writes, 15);
+        breaks("B of none of sixteen", writes, 9, Check.B);
     }
 
     private static void sixteenBeats() {

@@ -412,8 +412,9 @@ final class SlaveBoundsTest {
         bus.spoil(8, 8, false);
         CHECK.due("behind a spoil", bus.right(0, 1), 8);
         run(bus, 1, Check.how(1, 3, Check.GROWING), 8, 1);
-        run(bus, 0, Check.how(1, 3, Check.GROWING), 8, 1);
-        CHECK.due("behind reads", bus.right(0, 1), 8);
+        run(bus, 0, Check.how(1, 3, Check.GROWING), 64, 1);
+        CHECK.due("behind reads that are not exclusive", bus.right(0, 1), 8);
+        CHECK.due("which give none", bus.right(0, 17), -1);
         bus.forget();
         CHECK.due("behind forget", bus.right(0, 1), 8);
         int write = run(bus, 0, Check.WRITE + exclusive(1, 3), 8, 1);
