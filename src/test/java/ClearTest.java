@@ -5,6 +5,7 @@ final class ClearTest {
     public static void main(String[] args) {
         for (int view = 0; view < Views.COUNT; view++) {
             cleared(view);
+            clearedWhenFull(view);
             for (int ticks = 1; ticks <= 60; ticks++) {
                 clearedBehind(ticks, view);
             }
@@ -50,6 +51,42 @@ final class ClearTest {
         unused.clear();
         CHECK.same("view " + view + " at once", Views.of(used, view), Views.of(new Bus(3, 2, 3), view));
         CHECK.same("view " + view + " of one unused", Views.of(unused, view), Views.of(new Bus(3, 2, 3), view));
+    }
+
+    private static void clearedWhenFull(int view) {
+        Bus used = new Bus(2, 2, 8);
+        fill(used);
+        used.clear();
+        used.clear();
+        CHECK.same("view " + view + " when full", Views.of(used, view), Views.of(new Bus(2, 2, 8), view));
+    }
+
+    /** All tickets, rows, slaves and a watcher are full, and every byte is spoilt. */
+    private static void fill(Bus bus) {
+        bus.spoil(0, 65536, true);
+        for (int m = 0; m < 2; m++) {
+            bus.master(m, Check.B, 0);
+            bus.master(m, Check.R, 0);
+        }
+        for (int i = 0; i < 64; i++) {
+            int sort = i / 2 % 2 * Check.WRITE;
+            bus.request(i % 2, sort + Check.how(4, 3, Check.GROWING), 4096 * (i / 4 % 2), i / 4, i);
+            if (i % 32 == 31) {
+                bus.tick(50);
+            }
+        }
+        for (int i = 0; i < 16; i++) {
+            bus.see(1, Check.AR, Check.BOTH, 0, 0);
+            bus.see(1, Check.AW, Check.BOTH, 0, 0);
+            bus.judge(1);
+        }
+        bus.see(1, Check.W, Check.VALID, 1, 1);
+        bus.judge(1);
+        CHECK.due("64 tickets", bus.told(1), 64);
+        CHECK.due("16 writes", bus.watched(1, 4), 16);
+        CHECK.due("16 reads", bus.watched(1, 5), 16);
+        CHECK.due("four writes at once", bus.target(0, 2), 4);
+        CHECK.due("four reads at once", bus.target(0, 3), 4);
     }
 
     private static void clearedBehind(int ticks, int view) {

@@ -17,6 +17,8 @@ final class RequestBoundsTest {
             }
             stages(sort);
         }
+        answersOfOneId();
+        answersOfOtherIds();
         forgetBeginsAgain();
         greatestResponse();
         responseOfExclusiveBeats();
@@ -144,6 +146,42 @@ final class RequestBoundsTest {
             CHECK.due("not done", bus.told(2), stage == 2 ? 0 : 1);
             bus.tick(1);
         }
+    }
+
+    /** The ticks in which the tickets were done, in their order, less the first of them. */
+    private static String doneTicks(Bus bus, int tickets) {
+        StringBuilder ticks = new StringBuilder();
+        for (int i = 1; i < tickets; i++) {
+            ticks.append(bus.ticket(i, 4) - bus.ticket(0, 4)).append(' ');
+        }
+        return ticks.toString();
+    }
+
+    /** Three that wait at a slave, which would rather answer the last one first. */
+    private static Bus answered(int sort, int... ids) {
+        Bus bus = new Bus(1, 1, 8);
+        bus.way(0, 0, 1);
+        bus.slave(0, sort == 0 ? Check.R : Check.B, 0);
+        for (int id : ids) {
+            bus.request(0, sort + ONE, 0, id, 0);
+        }
+        bus.tick(20);
+        bus.slave(0, sort == 0 ? Check.R : Check.B, 65535);
+        bus.drain(50);
+        return bus;
+    }
+
+    /** An answer is for the first one with its ID that is not done. */
+    private static void answersOfOneId() {
+        CHECK.due("writes of one ID", doneTicks(answered(Check.WRITE, 5, 5, 5), 3), "1 2 ");
+        CHECK.due("reads of one ID", doneTicks(answered(0, 5, 5, 5), 3), "1 2 ");
+    }
+
+    private static void answersOfOtherIds() {
+        CHECK.due("writes of three IDs", doneTicks(answered(Check.WRITE, 0, 7, 15), 3), "-1 -2 ");
+        CHECK.due("reads of three IDs", doneTicks(answered(0, 0, 7, 15), 3), "-1 -2 ");
+        CHECK.due("writes of two IDs", doneTicks(answered(Check.WRITE, 5, 6, 5), 3), "-1 1 ");
+        CHECK.due("reads of two IDs", doneTicks(answered(0, 5, 6, 5), 3), "-1 1 ");
     }
 
     private static void forgetBeginsAgain() {

@@ -19,6 +19,10 @@ final class TickBoundsTest {
         patternFarOn();
         emptyPatterns();
         lowestBits();
+        for (int channel = 0; channel < 5; channel++) {
+            heldAtTheMaster(channel);
+            heldAtTheSlave(channel);
+        }
         lastPromisedCall();
         toldBounds();
         CHECK.end();
@@ -132,8 +136,7 @@ final class TickBoundsTest {
     }
 
     private static void rounds(String name, Bus bus, int side, int channel, int pattern) {
-        boolean masterSends = channel == Check.AW || channel == Check.W || channel == Check.AR;
-        int what = masterSends == (side == Check.MASTER) ? 0 : 1;
+        int what = masterSends(channel) == (side == Check.MASTER) ? 0 : 1;
         if (side == Check.MASTER) {
             bus.master(0, channel, pattern);
         } else {
@@ -228,6 +231,72 @@ final class TickBoundsTest {
             CHECK.due("master's last pattern", bus.master(0, channel, 0), master);
             CHECK.due("slave's last pattern", bus.slave(0, channel, 0), master);
         }
+    }
+
+    private static boolean masterSends(int channel) {
+        return channel == Check.AW || channel == Check.W || channel == Check.AR;
+    }
+
+    /** Much to do on all channels, and one that nobody takes. */
+    private static Bus stuck(int side, int channel) {
+        Bus bus = new Bus(1, 1, 8);
+        bus.way(0, 0, 1);
+        if (masterSends(channel)) {
+            bus.slave(0, channel, 0);
+        } else {
+            bus.master(0, channel, 0);
+        }
+        for (int i = 0; i < 6; i++) {
+            bus.request(0, Check.how(3, 3, Check.GROWING), 64 * i, i, i);
+            bus.request(0, Check.WRITE + Check.how(3, 3, Check.GROWING), 64 * i, i, i);
+        }
+        bus.tick(48);
+        CHECK.due("VALID on " + channel, bus.wire(side, 0, channel, 0), 1);
+        CHECK.due("not READY on " + channel, bus.wire(side, 0, channel, 1), 0);
+        return bus;
+    }
+
+    private static void stays(Bus bus, int side, int channel) {
+        long content = bus.content(side, 0, channel);
+        int rest = bus.wire(side, 0, channel, 2);
+        int before = bus.port(side, 0, channel);
+        for (int i = 0; i < 20; i++) {
+            bus.tick(1);
+            CHECK.due("VALID stays on " + channel, bus.wire(side, 0, channel, 0), 1);
+            CHECK.due("CONTENT stays on " + channel, bus.content(side, 0, channel), content);
+            CHECK.due("REST stays on " + channel, bus.wire(side, 0, channel, 2), rest);
+        }
+        CHECK.due("not transferred on " + channel, bus.port(side, 0, channel), before);
+        if (masterSends(channel)) {
+            bus.slave(0, channel, 65535);
+        } else {
+            bus.master(0, channel, 65535);
+        }
+        while (bus.port(side, 0, channel) == before) {
+            bus.tick(1);
+            CHECK.due("CONTENT of the transfer on " + channel, bus.content(side, 0, channel), content);
+            CHECK.due("REST of the transfer on " + channel, bus.wire(side, 0, channel, 2), rest);
+        }
+    }
+
+    /** What a master or a row gives stays while it is held, whatever is set meanwhile. */
+    private static void heldAtTheMaster(int channel) {
+        Bus bus = stuck(Check.MASTER, channel);
+        if (masterSends(channel)) {
+            bus.master(0, channel, 0);
+            bus.early(0, true);
+        }
+        bus.policy(2, true);
+        stays(bus, Check.MASTER, channel);
+    }
+
+    private static void heldAtTheSlave(int channel) {
+        Bus bus = stuck(Check.SLAVE, channel);
+        if (!masterSends(channel)) {
+            bus.slave(0, channel, 0);
+        }
+        bus.way(0, 15, 0);
+        stays(bus, Check.SLAVE, channel);
     }
 
     /** 512 calls are promised, with up to 1000 ticks each. */
