@@ -10,15 +10,38 @@ import java.util.TreeSet;
 
 /** The public face, and the bounds that LANGUAGE.md sets to the members. */
 final class FaceTest {
+    private static final String INDEX = " IndexOutOfBoundsException";
+    private static final String STATE = " IllegalStateException";
+    private static final String NUMBER = " IllegalArgumentException";
+    private static final String ROOM = " UnsupportedOperationException";
+
     private static final List<String> FACE = Arrays.asList(
-            "int map(int,int)", "int policy(int,boolean)", "int master(int,int,int)",
-            "boolean early(int,boolean)", "int slave(int,int,int)", "int way(int,int,int)",
-            "int spoil(int,int,boolean)", "int poke(int,int)", "int peek(int)",
-            "int request(int,int,int,int,long)", "int tick(int)", "int drain(int)",
-            "int ticket(int,int)", "long data(int,int)", "int forget()", "int wire(int,int,int,int)",
-            "long content(int,int,int)", "int port(int,int,int)", "int target(int,int)",
-            "int right(int,int)", "int told(int)", "void see(int,int,int,long,int)", "int judge(int)",
-            "int watched(int,int)", "void again(int)", "void clear()");
+            "int map(int,int)" + INDEX + STATE,
+            "int policy(int,boolean)" + NUMBER,
+            "int master(int,int,int)" + INDEX,
+            "boolean early(int,boolean)" + INDEX,
+            "int slave(int,int,int)" + INDEX,
+            "int way(int,int,int)" + INDEX + NUMBER,
+            "int spoil(int,int,boolean)" + INDEX + NUMBER,
+            "int poke(int,int)" + INDEX + NUMBER,
+            "int peek(int)" + INDEX,
+            "int request(int,int,int,int,long)" + INDEX + NUMBER + ROOM,
+            "int tick(int)" + NUMBER,
+            "int drain(int)" + NUMBER,
+            "int ticket(int,int)" + INDEX + NUMBER,
+            "long data(int,int)" + INDEX,
+            "int forget()" + STATE,
+            "int wire(int,int,int,int)" + INDEX + NUMBER,
+            "long content(int,int,int)" + INDEX,
+            "int port(int,int,int)" + INDEX + NUMBER,
+            "int target(int,int)" + INDEX + NUMBER,
+            "int right(int,int)" + INDEX + NUMBER,
+            "int told(int)",
+            "void see(int,int,int,long,int)" + INDEX + NUMBER,
+            "int judge(int)" + INDEX,
+            "int watched(int,int)" + INDEX + NUMBER,
+            "void again(int)" + INDEX,
+            "void clear()");
 
     private static String signature(Method m) {
         StringBuilder text = new StringBuilder(m.getReturnType().getName());
@@ -26,7 +49,11 @@ final class FaceTest {
         for (int i = 0; i < m.getParameterCount(); i++) {
             text.append(i == 0 ? "" : ",").append(m.getParameterTypes()[i].getName());
         }
-        return text.append(')').toString();
+        text.append(')');
+        for (Class<?> thrown : m.getExceptionTypes()) {
+            text.append(' ').append(thrown.getSimpleName());
+        }
+        return text.toString();
     }
 
     public static void main(String[] args) {
