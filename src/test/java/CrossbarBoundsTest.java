@@ -24,11 +24,13 @@ final class CrossbarBoundsTest {
         rowsOfAnswers();
         rowsOfReadBeats();
         dataOfOtherTargets();
+        dataInTheOrderOfAddresses();
         limitTillItsAnswerIsMoved();
         limitTillItsLastBeatIsMoved();
         addressesOfTheDefaultTarget();
         answersOfTheDefaultTarget();
         beatsOfTheDefaultTarget();
+        readsOfTheDefaultTarget();
         defaultTargetOfEachSize();
         answersGoRound();
         readBeatsGoRound();
@@ -141,6 +143,23 @@ final class CrossbarBoundsTest {
             bus.master(0, Check.W, ALL);
             CHECK.due("then both", bus.drain(30) > 0, true);
         }
+    }
+
+    /** Master 0's second write came behind master 1's: its data wait, also when master 0's first one is done. */
+    private static void dataInTheOrderOfAddresses() {
+        Bus bus = new Bus(2, 1, 8);
+        bus.master(1, Check.W, 0);
+        int[] tickets = {bus.request(0, Check.WRITE + ONE, 0, 1, 10), bus.request(1, Check.WRITE + ONE, 0, 1, 11),
+            bus.request(0, Check.WRITE + ONE, 0, 2, 12)};
+        bus.tick(40);
+        CHECK.due("the first is done", bus.ticket(tickets[0], 0), 2);
+        CHECK.due("data of the third came to the crossbar", bus.port(Check.MASTER, 0, Check.W), 2);
+        CHECK.due("but not to the slave", bus.port(Check.SLAVE, 0, Check.W), 1);
+        CHECK.due("which has two writes", bus.target(0, 2), 2);
+        bus.master(1, Check.W, ALL);
+        CHECK.due("now they go", bus.drain(40) > 0, true);
+        CHECK.due("the second was done before the third", bus.ticket(tickets[1], 4) < bus.ticket(tickets[2], 4), true);
+        CHECK.due("what the third wrote stays", bus.peek(0), bus.data(tickets[2], 0));
     }
 
     /** So many are under way as the LIMIT tells, to all targets together, and not one more. */
@@ -339,6 +358,29 @@ final class CrossbarBoundsTest {
             CHECK.due("the LAST one", bus.wire(Check.MASTER, 0, Check.R, 2), 15 + 3 * 64 + 256);
             CHECK.due("its CONTENT", bus.content(Check.MASTER, 0, Check.R), 0);
         }
+    }
+
+    /** Each read has its own l beats, whatever came before it. */
+    private static void readsOfTheDefaultTarget() {
+        int[] lengths = {3, 1, 16, 2, 2};
+        Bus bus = busWithoutSlave();
+        for (int i = 0; i < lengths.length; i++) {
+            bus.request(0, Check.how(lengths[i], 0, Check.GROWING), 0, i, 0);
+        }
+        StringBuilder want = new StringBuilder();
+        for (int i = 0; i < lengths.length; i++) {
+            want.append((i + " ").repeat(lengths[i] - 1)).append(i).append("! ");
+        }
+        StringBuilder seen = new StringBuilder();
+        for (int i = 0; i < 30; i++) {
+            bus.tick(1);
+            int rest = bus.wire(Check.MASTER, 0, Check.R, 2);
+            if (bus.wire(Check.MASTER, 0, Check.R, 0) == 1) {
+                seen.append(rest % 64).append(rest >= 256 ? "! " : " ");
+            }
+        }
+        CHECK.due("beats of reads in a row", seen.toString(), want.toString());
+        CHECK.sound("reads of the default target", bus);
     }
 
     /** The DEFAULT target's number is that behind the last slave. */

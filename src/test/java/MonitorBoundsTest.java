@@ -550,12 +550,29 @@ final class MonitorBoundsTest {
         ar(reads, ONE, 0, 0);
         breaks("AR goes before AW", reads, 12, Check.AR);
         keeps("what comes behind does not count", reads, 0, 16);
+        Bus answered = reads(16);
+        aw(answered, ONE, 7, 0);
+        w(answered, LAST);
+        goes("a write", answered);
+        b(answered, 7);
+        r(answered, 3);
+        aw(answered, ONE, 7, 0);
+        ar(answered, ONE, 0, 0);
+        breaks("a first beat of R makes no room for AR", answered, 12, Check.AR);
+        keeps("B went before, AW comes behind", answered, 0, 16);
     }
 
     private static void againAtAnyTime() {
         Bus unused = bus();
         unused.again(0);
         CHECK.due("ticks of an unused one", unused.watched(0, 3), 0);
+        for (int c = 0; c < 5; c++) {
+            Bus held = holding(c, Check.address(5, 64, ONE), c == Check.R ? LAST : 0);
+            held.again(0);
+            goes("channel " + c + " is not held", held);
+            CHECK.due("tick 0 is judged", held.watched(0, 3), 1);
+            keeps("it keeps nothing", held, 0, 0);
+        }
         Bus full = addresses(16);
         ar(full, ONE, 0, 0);
         goes("a read", full);

@@ -10,6 +10,7 @@ final class PortTest {
         slavePatterns();
         earlyMaster();
         heldStays();
+        channelsApart();
         transfersOfPorts();
         targets();
         told();
@@ -191,6 +192,32 @@ final class PortTest {
         CHECK.due("AW: the held one more", bus.port(Check.MASTER, 0, Check.AW), 5);
         CHECK.due("W: the held one more", bus.port(Check.MASTER, 0, Check.W), 9);
         CHECK.sound("held", bus);
+    }
+
+    /** Where reads stand still a write goes on in the ticks that it needs, and the other way round. */
+    private static void channelsApart() {
+        int read = Check.how(4, 0, Check.GROWING);
+        for (int kept : new int[] {Check.AR, Check.R}) {
+            CHECK.due("a write, with held " + kept, ticksBeside(read, kept, Check.WRITE + read), 7);
+        }
+        for (int kept : new int[] {Check.AW, Check.W, Check.B}) {
+            CHECK.due("a read, with held " + kept, ticksBeside(Check.WRITE + read, kept, read), 6);
+        }
+    }
+
+    private static int ticksBeside(int others, int kept, int how) {
+        Bus bus = busWith(8, others);
+        boolean answers = kept == Check.B || kept == Check.R;
+        int before = answers ? bus.master(0, kept, 0) : bus.slave(0, kept, 0);
+        CHECK.due("the pattern was", before, 65535);
+        bus.tick(60);
+        CHECK.due("VALID", bus.wire(Check.MASTER, 0, kept, 0), 1);
+        CHECK.due("no READY", bus.wire(Check.MASTER, 0, kept, 1), 0);
+        int ticket = bus.request(0, how, 0, 9, 1);
+        bus.tick(30);
+        CHECK.due("still VALID", bus.wire(Check.MASTER, 0, kept, 0), 1);
+        CHECK.sound("channels apart", bus);
+        return bus.ticket(ticket, 4) - bus.ticket(ticket, 2);
     }
 
     private static void transfersOfPorts() {

@@ -14,6 +14,7 @@ final class SlaveBoundsTest {
         delayThatChanges();
         lastOfThoseThatAreRipe();
         roundOfReads();
+        firstOfThoseThatBegan();
         writeBeforeRead();
         writtenWithTheLastBeat();
         spoiltBytesOfReads();
@@ -158,6 +159,32 @@ final class SlaveBoundsTest {
             if (i == tickOfTheFourth) {
                 bus.request(0, Check.how(2, 0, Check.GROWING), 0, 4, 0);
             }
+            bus.tick(1);
+            order.append(bus.wire(Check.SLAVE, 0, Check.R, 2) % 64);
+        }
+        return order.toString();
+    }
+
+    /** Some of three reads began by WAY 2: by WAY 1 the first of these goes on, behind them the last one. */
+    private static void firstOfThoseThatBegan() {
+        String[] want = {"33332222111100", "11113333222200", "12111222333300", "12311122233300", "12312311223300"};
+        int[] begun = {0, 1, 2, 3, 6};
+        for (int i = 0; i < begun.length; i++) {
+            CHECK.due(begun[i] + " beats by WAY 2", orderAfter(begun[i]), want[i]);
+        }
+    }
+
+    private static String orderAfter(int beatsByWay2) {
+        Bus bus = new Bus(1, 1, 8);
+        bus.slave(0, Check.R, 0);
+        for (int id = 1; id <= 3; id++) {
+            bus.request(0, Check.how(4, 0, Check.GROWING), 0, id, 0);
+        }
+        bus.tick(10);
+        bus.slave(0, Check.R, ALL);
+        StringBuilder order = new StringBuilder();
+        for (int i = 0; i < 14; i++) {
+            bus.way(0, 0, i < beatsByWay2 ? 2 : 1);
             bus.tick(1);
             order.append(bus.wire(Check.SLAVE, 0, Check.R, 2) % 64);
         }
