@@ -550,16 +550,24 @@ final class MonitorBoundsTest {
         ar(reads, ONE, 0, 0);
         breaks("AR goes before AW", reads, 12, Check.AR);
         keeps("what comes behind does not count", reads, 0, 16);
-        Bus answered = reads(16);
-        aw(answered, ONE, 7, 0);
-        w(answered, LAST);
-        goes("a write", answered);
-        b(answered, 7);
-        r(answered, 3);
-        aw(answered, ONE, 7, 0);
-        ar(answered, ONE, 0, 0);
-        breaks("a first beat of R makes no room for AR", answered, 12, Check.AR);
-        keeps("B went before, AW comes behind", answered, 0, 16);
+        for (int beats = 0; beats < 2; beats++) {
+            answeredInTheTickOfAFault(beats == 1);
+        }
+    }
+
+    private static void answeredInTheTickOfAFault(boolean withFirstBeat) {
+        Bus bus = reads(16);
+        aw(bus, ONE, 7, 0);
+        w(bus, LAST);
+        goes("a write", bus);
+        b(bus, 7);
+        if (withFirstBeat) {
+            r(bus, 3);
+        }
+        aw(bus, ONE, 7, 0);
+        ar(bus, ONE, 0, 0);
+        breaks("no LAST beat of R makes room for AR", bus, 12, Check.AR);
+        keeps("B went before, AW comes behind", bus, 0, 16);
     }
 
     private static void againAtAnyTime() {
